@@ -28,8 +28,8 @@ public final class ShellPair {
     private final Server server;
 
     public ShellPair() {
-        Sha256 sha = new Sha256();
-        Curve curve = new Curve();
+        Sha2 sha = new Sha2();
+        Curve curve = new Curve(sha);
         wires[0] = new Bytes(1024);
         wires[1] = new Bytes(1024);
         client = new Client(wires[1], sha, curve);
@@ -129,7 +129,7 @@ public final class ShellPair {
     }
 
     public void start() throws IllegalStateException {
-        if (server.hostSeed.size != 32) {
+        if (!server.hasHostKey()) {
             throw new IllegalStateException("the server has no host key");
         }
         wires[0].clear();
@@ -389,7 +389,9 @@ public final class ShellPair {
         void clear() {
             from = 0;
             size = 0;
-            rewind();
+            cursor = 0;
+            bad = false;
+            textSize = 0;
         }
 
         void rewind() {
@@ -448,8 +450,10 @@ public final class ShellPair {
         }
 
         void putText(String s) {
+            makeRoom(s.length());
             for (int i = 0; i < s.length(); i++) {
-                put(s.charAt(i));
+                data[from + size] = (byte) s.charAt(i);
+                size++;
             }
         }
 
@@ -486,9 +490,10 @@ public final class ShellPair {
         }
 
         void putArray(byte[] a, int n) {
-            for (int i = 0; i < n && i < a.length; i++) {
-                put(a[i]);
-            }
+            int many = Math.max(0, Math.min(n, a.length));
+            makeRoom(many);
+            System.arraycopy(a, 0, data, from + size, many);
+            size += many;
         }
 
         /** The first n bytes of a as a string field, their number first. */
@@ -629,9 +634,9 @@ public final class ShellPair {
         }
     }
 
-    /** SHA-256 of a head and a text behind it, in one go. */
-    private static final class Sha256 {
-        private static final int[] ROUND = {
+    /** SHA-256 and SHA-512 of a head and a text behind it, in one go. */
+    private static final class Sha2 {
+        private static final int[] ROUND_256 = {
             0x428a2f98, 0x71374491, 0xb5c0fbcf, 0xe9b5dba5, 0x3956c25b, 0x59f111f1, 0x923f82a4, 0xab1c5ed5,
             0xd807aa98, 0x12835b01, 0x243185be, 0x550c7dc3, 0x72be5d74, 0x80deb1fe, 0x9bdc06a7, 0xc19bf174,
             0xe49b69c1, 0xefbe4786, 0x0fc19dc6, 0x240ca1cc, 0x2de92c6f, 0x4a7484aa, 0x5cb0a9dc, 0x76f988da,
@@ -641,21 +646,49 @@ public final class ShellPair {
             0x19a4c116, 0x1e376c08, 0x2748774c, 0x34b0bcb5, 0x391c0cb3, 0x4ed8aa4a, 0x5b9cca4f, 0x682e6ff3,
             0x748f82ee, 0x78a5636f, 0x84c87814, 0x8cc70208, 0x90befffa, 0xa4506ceb, 0xbef9a3f7, 0xc67178f2,
         };
-        private static final int[] START = {
+        private static final int[] START_256 = {
             0x6a09e667, 0xbb67ae85, 0x3c6ef372, 0xa54ff53a, 0x510e527f, 0x9b05688c, 0x1f83d9ab, 0x5be0cd19,
+        };
+        private static final long[] ROUND_512 = {
+            0x428a2f98d728ae22L, 0x7137449123ef65cdL, 0xb5c0fbcfec4d3b2fL, 0xe9b5dba58189dbbcL,
+            0x3956c25bf348b538L, 0x59f111f1b605d019L, 0x923f82a4af194f9bL, 0xab1c5ed5da6d8118L,
+            0xd807aa98a3030242L, 0x12835b0145706fbeL, 0x243185be4ee4b28cL, 0x550c7dc3d5ffb4e2L,
+            0x72be5d74f27b896fL, 0x80deb1fe3b1696b1L, 0x9bdc06a725c71235L, 0xc19bf174cf692694L,
+            0xe49b69c19ef14ad2L, 0xefbe4786384f25e3L, 0x0fc19dc68b8cd5b5L, 0x240ca1cc77ac9c65L,
+            0x2de92c6f592b0275L, 0x4a7484aa6ea6e483L, 0x5cb0a9dcbd41fbd4L, 0x76f988da831153b5L,
+            0x983e5152ee66dfabL, 0xa831c66d2db43210L, 0xb00327c898fb213fL, 0xbf597fc7beef0ee4L,
+            0xc6e00bf33da88fc2L, 0xd5a79147930aa725L, 0x06ca6351e003826fL, 0x142929670a0e6e70L,
+            0x27b70a8546d22ffcL, 0x2e1b21385c26c926L, 0x4d2c6dfc5ac42aedL, 0x53380d139d95b3dfL,
+            0x650a73548baf63deL, 0x766a0abb3c77b2a8L, 0x81c2c92e47edaee6L, 0x92722c851482353bL,
+            0xa2bfe8a14cf10364L, 0xa81a664bbc423001L, 0xc24b8b70d0f89791L, 0xc76c51a30654be30L,
+            0xd192e819d6ef5218L, 0xd69906245565a910L, 0xf40e35855771202aL, 0x106aa07032bbd1b8L,
+            0x19a4c116b8d2d0c8L, 0x1e376c085141ab53L, 0x2748774cdf8eeb99L, 0x34b0bcb5e19b48a8L,
+            0x391c0cb3c5c95a63L, 0x4ed8aa4ae3418acbL, 0x5b9cca4f7763e373L, 0x682e6ff3d6b2b8a3L,
+            0x748f82ee5defb2fcL, 0x78a5636f43172f60L, 0x84c87814a1f0ab72L, 0x8cc702081a6439ecL,
+            0x90befffa23631e28L, 0xa4506cebde82bde9L, 0xbef9a3f7b2c67915L, 0xc67178f2e372532bL,
+            0xca273eceea26619cL, 0xd186b8c721c0c207L, 0xeada7dd6cde0eb1eL, 0xf57d4f7fee6ed178L,
+            0x06f067aa72176fbaL, 0x0a637dc5a2c898a6L, 0x113f9804bef90daeL, 0x1b710b35131c471bL,
+            0x28db77f523047d84L, 0x32caab7b40c72493L, 0x3c9ebe0a15c9bebcL, 0x431d67c49c100d4cL,
+            0x4cc5d4becb3e42b6L, 0x597f299cfc657e2aL, 0x5fcb6fab3ad6faecL, 0x6c44198c4a475817L,
+        };
+        private static final long[] START_512 = {
+            0x6a09e667f3bcc908L, 0xbb67ae8584caa73bL, 0x3c6ef372fe94f82bL, 0xa54ff53a5f1d36f1L,
+            0x510e527fade682d1L, 0x9b05688c2b3e6c1fL, 0x1f83d9abfb41bd6bL, 0x5be0cd19137e2179L,
         };
 
         private final int[] words = new int[64];
         private final int[] sums = new int[8];
+        private final long[] longWords = new long[80];
+        private final long[] longSums = new long[8];
 
         /** One method does it all, for it stands at the end of the deepest calls. */
-        void digest(byte[] head, int headSize, byte[] text, int from, int n, byte[] out) {
+        void digest256(byte[] head, int headSize, byte[] text, int from, int n, byte[] out) {
             if (headSize < 0 || headSize > head.length || from < 0 || n < 0 || n > text.length - from
                     || out.length < 32) {
                 return;
             }
             int[] w = words;
-            System.arraycopy(START, 0, sums, 0, 8);
+            System.arraycopy(START_256, 0, sums, 0, 8);
             int total = headSize + n;
             int blocks = (total + 72) / 64;
             for (int k = 0; k < blocks; k++) {
@@ -680,7 +713,7 @@ public final class ShellPair {
                 for (int t = 0; t < 64; t++) {
                     int s1 = (e >>> 6 | e << 26) ^ (e >>> 11 | e << 21) ^ (e >>> 25 | e << 7);
                     int s0 = (a >>> 2 | a << 30) ^ (a >>> 13 | a << 19) ^ (a >>> 22 | a << 10);
-                    int t1 = h + s1 + (e & f ^ ~e & g) + ROUND[t] + w[t];
+                    int t1 = h + s1 + (e & f ^ ~e & g) + ROUND_256[t] + w[t];
                     int t2 = s0 + (a & b ^ a & c ^ b & c);
                     h = g;
                     g = f;
@@ -704,67 +737,33 @@ public final class ShellPair {
                 out[i] = (byte) (sums[i >> 2] >>> 24 - 8 * (i & 3));
             }
         }
-    }
-
-    /** SHA-512 of a head and a text behind it, in one go. */
-    private static final class Sha512 {
-        private static final long[] ROUND = {
-            0x428a2f98d728ae22L, 0x7137449123ef65cdL, 0xb5c0fbcfec4d3b2fL, 0xe9b5dba58189dbbcL,
-            0x3956c25bf348b538L, 0x59f111f1b605d019L, 0x923f82a4af194f9bL, 0xab1c5ed5da6d8118L,
-            0xd807aa98a3030242L, 0x12835b0145706fbeL, 0x243185be4ee4b28cL, 0x550c7dc3d5ffb4e2L,
-            0x72be5d74f27b896fL, 0x80deb1fe3b1696b1L, 0x9bdc06a725c71235L, 0xc19bf174cf692694L,
-            0xe49b69c19ef14ad2L, 0xefbe4786384f25e3L, 0x0fc19dc68b8cd5b5L, 0x240ca1cc77ac9c65L,
-            0x2de92c6f592b0275L, 0x4a7484aa6ea6e483L, 0x5cb0a9dcbd41fbd4L, 0x76f988da831153b5L,
-            0x983e5152ee66dfabL, 0xa831c66d2db43210L, 0xb00327c898fb213fL, 0xbf597fc7beef0ee4L,
-            0xc6e00bf33da88fc2L, 0xd5a79147930aa725L, 0x06ca6351e003826fL, 0x142929670a0e6e70L,
-            0x27b70a8546d22ffcL, 0x2e1b21385c26c926L, 0x4d2c6dfc5ac42aedL, 0x53380d139d95b3dfL,
-            0x650a73548baf63deL, 0x766a0abb3c77b2a8L, 0x81c2c92e47edaee6L, 0x92722c851482353bL,
-            0xa2bfe8a14cf10364L, 0xa81a664bbc423001L, 0xc24b8b70d0f89791L, 0xc76c51a30654be30L,
-            0xd192e819d6ef5218L, 0xd69906245565a910L, 0xf40e35855771202aL, 0x106aa07032bbd1b8L,
-            0x19a4c116b8d2d0c8L, 0x1e376c085141ab53L, 0x2748774cdf8eeb99L, 0x34b0bcb5e19b48a8L,
-            0x391c0cb3c5c95a63L, 0x4ed8aa4ae3418acbL, 0x5b9cca4f7763e373L, 0x682e6ff3d6b2b8a3L,
-            0x748f82ee5defb2fcL, 0x78a5636f43172f60L, 0x84c87814a1f0ab72L, 0x8cc702081a6439ecL,
-            0x90befffa23631e28L, 0xa4506cebde82bde9L, 0xbef9a3f7b2c67915L, 0xc67178f2e372532bL,
-            0xca273eceea26619cL, 0xd186b8c721c0c207L, 0xeada7dd6cde0eb1eL, 0xf57d4f7fee6ed178L,
-            0x06f067aa72176fbaL, 0x0a637dc5a2c898a6L, 0x113f9804bef90daeL, 0x1b710b35131c471bL,
-            0x28db77f523047d84L, 0x32caab7b40c72493L, 0x3c9ebe0a15c9bebcL, 0x431d67c49c100d4cL,
-            0x4cc5d4becb3e42b6L, 0x597f299cfc657e2aL, 0x5fcb6fab3ad6faecL, 0x6c44198c4a475817L,
-        };
-        private static final long[] START = {
-            0x6a09e667f3bcc908L, 0xbb67ae8584caa73bL, 0x3c6ef372fe94f82bL, 0xa54ff53a5f1d36f1L,
-            0x510e527fade682d1L, 0x9b05688c2b3e6c1fL, 0x1f83d9abfb41bd6bL, 0x5be0cd19137e2179L,
-        };
-
-        private final long[] words = new long[80];
-        private final long[] sums = new long[8];
-
-        void digest(byte[] head, int headSize, byte[] text, int from, int n, byte[] out) {
+        void digest512(byte[] head, int headSize, byte[] text, int from, int n, byte[] out) {
             if (headSize < 0 || headSize > head.length || from < 0 || n < 0 || n > text.length - from
                     || out.length < 64) {
                 return;
             }
-            System.arraycopy(START, 0, sums, 0, 8);
+            System.arraycopy(START_512, 0, longSums, 0, 8);
             int total = headSize + n;
             int blocks = (total + 144) / 128;
             for (int k = 0; k < blocks; k++) {
                 for (int i = 128 * k; i < 128 * k + 128; i++) {
                     int last = i == total ? 128 : 0;
                     int v = i < headSize ? head[i] & 255 : i < total ? text[from + i - headSize] & 255 : last;
-                    words[i >> 3 & 15] = words[i >> 3 & 15] << 8 | v;
+                    longWords[i >> 3 & 15] = longWords[i >> 3 & 15] << 8 | v;
                 }
                 if (k == blocks - 1) {
-                    words[14] = 0;
-                    words[15] = 8L * total;
+                    longWords[14] = 0;
+                    longWords[15] = 8L * total;
                 }
-                compress();
+                compress512();
             }
             for (int i = 0; i < 64; i++) {
-                out[i] = (byte) (sums[i >> 3] >>> 56 - 8 * (i & 7));
+                out[i] = (byte) (longSums[i >> 3] >>> 56 - 8 * (i & 7));
             }
         }
 
-        private void compress() {
-            long[] w = words;
+        private void compress512() {
+            long[] w = longWords;
             for (int t = 16; t < 80; t++) {
                 long x = w[t - 15];
                 long y = w[t - 2];
@@ -772,12 +771,12 @@ public final class ShellPair {
                 long s1 = (y >>> 19 | y << 45) ^ (y >>> 61 | y << 3) ^ y >>> 6;
                 w[t] = w[t - 16] + s0 + w[t - 7] + s1;
             }
-            long a = sums[0], b = sums[1], c = sums[2], d = sums[3];
-            long e = sums[4], f = sums[5], g = sums[6], h = sums[7];
+            long a = longSums[0], b = longSums[1], c = longSums[2], d = longSums[3];
+            long e = longSums[4], f = longSums[5], g = longSums[6], h = longSums[7];
             for (int t = 0; t < 80; t++) {
                 long s1 = (e >>> 14 | e << 50) ^ (e >>> 18 | e << 46) ^ (e >>> 41 | e << 23);
                 long s0 = (a >>> 28 | a << 36) ^ (a >>> 34 | a << 30) ^ (a >>> 39 | a << 25);
-                long t1 = h + s1 + (e & f ^ ~e & g) + ROUND[t] + w[t];
+                long t1 = h + s1 + (e & f ^ ~e & g) + ROUND_512[t] + w[t];
                 long t2 = s0 + (a & b ^ a & c ^ b & c);
                 h = g;
                 g = f;
@@ -788,14 +787,14 @@ public final class ShellPair {
                 b = a;
                 a = t1 + t2;
             }
-            sums[0] += a;
-            sums[1] += b;
-            sums[2] += c;
-            sums[3] += d;
-            sums[4] += e;
-            sums[5] += f;
-            sums[6] += g;
-            sums[7] += h;
+            longSums[0] += a;
+            longSums[1] += b;
+            longSums[2] += c;
+            longSums[3] += d;
+            longSums[4] += e;
+            longSums[5] += f;
+            longSums[6] += g;
+            longSums[7] += h;
         }
     }
 
@@ -927,13 +926,13 @@ public final class ShellPair {
 
     /** The bytes that an END takes where another would throw dice. */
     private static final class Chance {
-        private final Sha256 sha;
+        private final Sha2 sha;
         private final byte[] seedAndNumber = new byte[40];
         private final byte[] block = new byte[32];
         private long number;
         private int used = 32;
 
-        Chance(Sha256 sha) {
+        Chance(Sha2 sha) {
             this.sha = sha;
         }
 
@@ -948,7 +947,7 @@ public final class ShellPair {
                 for (int i = 0; i < 8; i++) {
                     seedAndNumber[32 + i] = (byte) (number >>> 56 - 8 * i);
                 }
-                sha.digest(seedAndNumber, 40, block, 0, 0, block);
+                sha.digest256(seedAndNumber, 40, block, 0, 0, block);
                 number++;
                 used = 0;
             }
@@ -982,7 +981,7 @@ public final class ShellPair {
             0, 0, 0, 0, 0, 0, 0, 0, 0, 0, 0, 0, 0, 0, 0, 0x10,
         };
 
-        private final Sha512 sha = new Sha512();
+        private final Sha2 sha;
         private final long[][] rows = new long[12][10];
         private final long[][] base = new long[4][10];
         private final long[][] sum = new long[4][10];
@@ -997,7 +996,8 @@ public final class ShellPair {
         private final byte[] digest = new byte[64];
         private final byte[] head = new byte[64];
 
-        Curve() {
+        Curve(Sha2 sha) {
+            this.sha = sha;
             System.arraycopy(BASE_X, 0, base[0], 0, 10);
             System.arraycopy(BASE_Y, 0, base[1], 0, 10);
             base[2][0] = 1;
@@ -1070,7 +1070,7 @@ public final class ShellPair {
             if (out.length != 32 || seed.length != 32) {
                 return;
             }
-            sha.digest(seed, 32, zero, 0, 0, digest);
+            sha.digest512(seed, 32, zero, 0, 0, digest);
             System.arraycopy(digest, 0, scalar, 0, 32);
             clamp(scalar);
             combine(scalar, zero);
@@ -1081,18 +1081,18 @@ public final class ShellPair {
             if (out.length != 64 || seed.length != 32 || publicKey.length != 32) {
                 return;
             }
-            sha.digest(seed, 32, zero, 0, 0, digest);
+            sha.digest512(seed, 32, zero, 0, 0, digest);
             System.arraycopy(digest, 0, scalar, 0, 32);
             clamp(scalar);
             System.arraycopy(digest, 32, head, 0, 32);
-            sha.digest(head, 32, text.data, text.from, text.size, digest);
+            sha.digest512(head, 32, text.data, text.from, text.size, digest);
             reduceDigest(nonce);
             combine(nonce, zero);
             encode(packed);
             System.arraycopy(packed, 0, out, 0, 32);
             System.arraycopy(packed, 0, head, 0, 32);
             System.arraycopy(publicKey, 0, head, 32, 32);
-            sha.digest(head, 64, text.data, text.from, text.size, digest);
+            sha.digest512(head, 64, text.data, text.from, text.size, digest);
             reduceDigest(factor);
             Arrays.fill(wide, 0);
             for (int i = 0; i < 32; i++) {
@@ -1115,7 +1115,7 @@ public final class ShellPair {
             }
             System.arraycopy(signature, 0, head, 0, 32);
             System.arraycopy(publicKey, 0, head, 32, 32);
-            sha.digest(head, 64, text.data, text.from, text.size, digest);
+            sha.digest512(head, 64, text.data, text.from, text.size, digest);
             reduceDigest(factor);
             negate(key[0]);
             negate(key[3]);
@@ -1381,7 +1381,8 @@ public final class ShellPair {
             long b2 = 2 * b, d2 = 2 * d, i2 = 2 * i, k2 = 2 * k, m2 = 2 * m;
             long q19 = 19 * q, r19 = 19 * r, s19 = 19 * s, t19 = 19 * t, u19 = 19 * u;
             long v19 = 19 * v, w19 = 19 * w, x19 = 19 * x, y19 = 19 * y;
-            long h0 = a * p + b2 * y19 + c * x19 + d2 * w19 + e * v19 + i2 * u19 + j * t19 + k2 * s19 + l * r19 + m2 * q19;
+            long h0 = a * p + b2 * y19 + c * x19 + d2 * w19 + e * v19
+                    + i2 * u19 + j * t19 + k2 * s19 + l * r19 + m2 * q19;
             long h1 = a * q + b * p + c * y19 + d * x19 + e * w19 + i * v19 + j * u19 + k * t19 + l * s19 + m * r19;
             long h2 = a * r + b2 * q + c * p + d2 * y19 + e * x19 + i2 * w19 + j * v19 + k2 * u19 + l * t19 + m2 * s19;
             long h3 = a * s + b * r + c * q + d * p + e * y19 + i * x19 + j * w19 + k * v19 + l * u19 + m * t19;
@@ -1476,12 +1477,12 @@ public final class ShellPair {
         int cipher;
         int mac;
         long bytes;
-        private final Sha256 sha;
+        private final Sha2 sha;
         private final byte[] inner = new byte[68];
         private final byte[] outer = new byte[64];
         private final byte[] half = new byte[32];
 
-        Flow(Sha256 sha) {
+        Flow(Sha2 sha) {
             this.sha = sha;
         }
 
@@ -1553,8 +1554,8 @@ public final class ShellPair {
             for (int i = 0; i < 4; i++) {
                 inner[64 + i] = (byte) (packets >>> 24 - 8 * i);
             }
-            sha.digest(inner, 68, packet.data, packet.from, n, half);
-            sha.digest(outer, 64, half, 0, 32, tag);
+            sha.digest256(inner, 68, packet.data, packet.from, n, half);
+            sha.digest256(outer, 64, half, 0, 32, tag);
         }
     }
 
@@ -1579,9 +1580,9 @@ public final class ShellPair {
         boolean passesNext;
         int due;
         int complete;
-        private final Sha256 sha;
+        private final Sha2 sha;
 
-        Exchange(Sha256 sha, String line) {
+        Exchange(Sha2 sha, String line) {
             this.sha = sha;
             ownLine.putText(line);
             listsBy(12, 21);
@@ -1741,7 +1742,7 @@ public final class ShellPair {
             text.putArrayString(isClient ? ownPublic : otherPublic, 32);
             text.putArrayString(isClient ? otherPublic : ownPublic, 32);
             putShared();
-            sha.digest(hash, 0, text.data, text.from, text.size, hash);
+            sha.digest256(hash, 0, text.data, text.from, text.size, hash);
             if (session.size == 0) {
                 session.putArray(hash, 32);
             }
@@ -1763,7 +1764,7 @@ public final class ShellPair {
             text.putArray(hash, 32);
             text.put(letter);
             text.putAll(session);
-            sha.digest(hash, 0, text.data, text.from, text.size, out);
+            sha.digest256(hash, 0, text.data, text.from, text.size, out);
         }
 
         int sessionStart() {
@@ -1919,7 +1920,7 @@ public final class ShellPair {
         private int linesPassed;
         private int length;
 
-        End(boolean isClient, Bytes wire, Sha256 sha, Curve curve) {
+        End(boolean isClient, Bytes wire, Sha2 sha, Curve curve) {
             this.isClient = isClient;
             this.wire = wire;
             this.curve = curve;
@@ -1937,6 +1938,8 @@ public final class ShellPair {
 
         /** 30 or 31 has come: the reason to disconnect for, or 0. */
         abstract int takesReply();
+
+        abstract void forgetsAsking();
 
         abstract void firstExchangeIsComplete();
 
@@ -1961,6 +1964,7 @@ public final class ShellPair {
             exchange.begins();
             outward.begins();
             inward.begins();
+            forgetsAsking();
             for (int i = 0; i < CHANNELS; i++) {
                 channels[i].begins(Channel.UNUSED, 0, settings);
             }
@@ -2485,13 +2489,6 @@ public final class ShellPair {
                 }
             }
         }
-
-        void closes(Channel c) {
-            putsNumber(97, c);
-            if (sends(message)) {
-                c.mark(Channel.CLOSE_SENT);
-            }
-        }
     }
 
     private static final class Client extends End {
@@ -2519,7 +2516,7 @@ public final class ShellPair {
         private int answerDue;
         private int requests;
 
-        Client(Bytes wire, Sha256 sha, Curve curve) {
+        Client(Bytes wire, Sha2 sha, Curve curve) {
             super(true, wire, sha, curve);
         }
 
@@ -2536,22 +2533,18 @@ public final class ShellPair {
             password.putPart(nameAndPassword, n, nameAndPassword.size - n);
         }
 
-        @Override
-        void begins() {
+        void forgetsAsking() {
             serviceGiven = false;
             triedKey = false;
             triedPassword = false;
             answerDue = 0;
             requests = 0;
-            super.begins();
         }
 
-        @Override
         int asked() {
             return requests;
         }
 
-        @Override
         int takesReply() {
             int host = body.nextText();
             int hostSize = body.textSize;
@@ -2589,7 +2582,6 @@ public final class ShellPair {
             return 0;
         }
 
-        @Override
         void firstExchangeIsComplete() {
             message.clear();
             message.put(5);
@@ -2597,7 +2589,6 @@ public final class ShellPair {
             sends(message);
         }
 
-        @Override
         int answersAsking(int number) {
             if (number == 6) {
                 int at = body.nextText();
@@ -2756,7 +2747,6 @@ public final class ShellPair {
             }
         }
 
-        @Override
         int takesOpen() {
             body.nextText();
             int number = body.nextInt();
@@ -2775,7 +2765,6 @@ public final class ShellPair {
             return 0;
         }
 
-        @Override
         int takesOpened() {
             int number = body.nextInt();
             int other = body.nextInt();
@@ -2790,7 +2779,6 @@ public final class ShellPair {
             return 0;
         }
 
-        @Override
         int takesRefused() {
             int number = body.nextInt();
             int why = body.nextInt();
@@ -2806,7 +2794,6 @@ public final class ShellPair {
             return 0;
         }
 
-        @Override
         int takesRequest(Channel c) {
             int kind = body.nextText();
             int kindSize = body.textSize;
@@ -2825,7 +2812,6 @@ public final class ShellPair {
             return 0;
         }
 
-        @Override
         void works() {
             for (int i = 0; i < CHANNELS && state == OPEN; i++) {
                 Channel c = channels[i];
@@ -2837,7 +2823,10 @@ public final class ShellPair {
 
         private void worksOn(Channel c) {
             if (c.is(Channel.CLOSING)) {
-                closes(c);
+                putsNumber(97, c);
+                if (sends(message)) {
+                    c.mark(Channel.CLOSE_SENT);
+                }
                 return;
             }
             pours(c, c.out, 94);
@@ -2873,7 +2862,6 @@ public final class ShellPair {
         private static final int DEAF = 4;
         private static final int DONE = 5;
 
-        final Bytes hostSeed = new Bytes(32);
         final Bytes[] keys = new Bytes[ACCOUNTS];
         final Store store = new Store();
         int accounts;
@@ -2883,14 +2871,14 @@ public final class ShellPair {
         private final Bytes[] names = new Bytes[ACCOUNTS];
         private final Bytes[] passwords = new Bytes[ACCOUNTS];
         private final int[] ports = new int[2048];
-        private final Sha256 sha;
+        private final Sha2 sha;
         private final Bytes text = new Bytes(256);
         private final byte[] key = new byte[32];
         private final byte[] signature = new byte[64];
         private boolean serviceGiven;
         private int failures;
 
-        Server(Bytes wire, Sha256 sha, Curve curve) {
+        Server(Bytes wire, Sha2 sha, Curve curve) {
             super(false, wire, sha, curve);
             this.sha = sha;
             for (int i = 0; i < ACCOUNTS; i++) {
@@ -2901,12 +2889,15 @@ public final class ShellPair {
         }
 
         void takesHostKey(Bytes seed) {
-            hostSeed.become(seed);
             seed.copyTo(hostSecret, 0);
             curve.publicKey(hostPublic, hostSecret);
             hostKey.clear();
             hostKey.putName(ED25519);
             hostKey.putArrayString(hostPublic, 32);
+        }
+
+        boolean hasHostKey() {
+            return hostKey.size > 0;
         }
 
         int accountOf(Bytes b, int at, int n) {
@@ -2963,24 +2954,19 @@ public final class ShellPair {
             return null;
         }
 
-        @Override
-        void begins() {
+        void forgetsAsking() {
             serviceGiven = false;
             failures = 0;
-            super.begins();
         }
 
-        @Override
         int asked() {
             return failures;
         }
 
-        @Override
         void firstExchangeIsComplete() {
             // The client asks; the server has nothing to say till then.
         }
 
-        @Override
         int takesReply() {
             int at = body.nextText();
             int n = body.textSize;
@@ -3014,7 +3000,6 @@ public final class ShellPair {
             return 0;
         }
 
-        @Override
         int answersAsking(int number) {
             if (number == 5) {
                 return givesService();
@@ -3130,7 +3115,6 @@ public final class ShellPair {
             return verdict == FAILS && failures == FAILURES && state == OPEN ? NO_METHOD_LEFT : 0;
         }
 
-        @Override
         int takesOpen() {
             int type = body.nextText();
             int typeSize = body.textSize;
@@ -3176,17 +3160,14 @@ public final class ShellPair {
             return isPort(port) && (ports[port >> 5] >> (port & 31) & 1) == 1 && connectionAt(port) == null;
         }
 
-        @Override
         int takesOpened() {
             return PROTOCOL_ERROR;
         }
 
-        @Override
         int takesRefused() {
             return PROTOCOL_ERROR;
         }
 
-        @Override
         int takesRequest(Channel c) {
             int kind = body.nextText();
             int kindSize = body.textSize;
@@ -3210,7 +3191,6 @@ public final class ShellPair {
             return 0;
         }
 
-        @Override
         void works() {
             for (int i = 0; i < CHANNELS && state == OPEN; i++) {
                 Channel c = channels[i];
@@ -3259,9 +3239,12 @@ public final class ShellPair {
                 message.put(0);
                 message.putInt(c.status);
                 sends(message);
-                closes(c);
-            } else if (c.is(Channel.EOF_HAD)) {
-                closes(c);
+            }
+            if (c.port == 0 || c.is(Channel.EOF_HAD)) {
+                putsNumber(97, c);
+                if (sends(message)) {
+                    c.mark(Channel.CLOSE_SENT);
+                }
             }
         }
 
@@ -3271,7 +3254,8 @@ public final class ShellPair {
             if (words == 1 && isWord(command, 0, "cat")) {
                 return CAT;
             }
-            if (words == 2 && isWord(command, 0, "put") && wordSize(command, wordAt(command, 1)) <= Store.LONGEST_NAME) {
+            if (words == 2 && isWord(command, 0, "put")
+                    && wordSize(command, wordAt(command, 1)) <= Store.LONGEST_NAME) {
                 return PUT;
             }
             return DEAF;
@@ -3378,7 +3362,7 @@ public final class ShellPair {
                 store.removes(place);
             } else if (isWord(command, 0, "sum")) {
                 Bytes content = store.contents[place];
-                sha.digest(key, 0, content.data, content.from, content.size, key);
+                sha.digest256(key, 0, content.data, content.from, content.size, key);
                 for (int i = 0; i < 64; i++) {
                     int digit = key[i >> 1] >> 4 - 4 * (i & 1) & 15;
                     c.out.put(digit < 10 ? '0' + digit : 'a' + digit - 10);
@@ -3485,6 +3469,7 @@ public final class ShellPair {
                 sought.clear();
                 sought.putPart(b, at, n);
                 place = makesPlace();
+                names[place].become(sought);
             }
             contents[place].become(content);
             return true;
@@ -3499,7 +3484,6 @@ public final class ShellPair {
                 names[place] = names[place - 1];
                 contents[place] = contents[place - 1];
             }
-            name.become(sought);
             names[place] = name;
             contents[place] = content;
             size++;
