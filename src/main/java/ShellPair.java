@@ -2590,27 +2590,40 @@ public final class ShellPair {
         }
 
         int answersAsking(int number) {
+            if (number == 52) {
+                return takesSuccess();
+            }
+            int why = PROTOCOL_ERROR;
             if (number == 6) {
-                int at = body.nextText();
-                if (!body.whole() || serviceGiven || !body.same(at, body.textSize, ASKING)) {
-                    return PROTOCOL_ERROR;
-                }
-                serviceGiven = true;
-                beginsAsking("none");
-                asks(ASKED);
-                return 0;
+                why = preparesFirst();
+            } else if (number == 51 && answerDue != 0) {
+                why = preparesNext();
+            } else if (number == 60 && answerDue == ASKED_FOR_KEY) {
+                why = preparesProof();
             }
-            if (number == 51 && answerDue != 0) {
-                return asksNext();
+            if (why == 0 && sends(message)) {
+                requests++;
             }
-            if (number == 60 && answerDue == ASKED_FOR_KEY) {
-                return asksWithProof();
-            }
-            if (number != 52 || answerDue == 0 || !body.whole()) {
+            return why;
+        }
+
+        private int takesSuccess() {
+            if (answerDue == 0 || !body.whole()) {
                 return PROTOCOL_ERROR;
             }
             answerDue = 0;
             proven = true;
+            return 0;
+        }
+
+        private int preparesFirst() {
+            int at = body.nextText();
+            if (!body.whole() || serviceGiven || !body.same(at, body.textSize, ASKING)) {
+                return PROTOCOL_ERROR;
+            }
+            serviceGiven = true;
+            beginsAsking("none");
+            answerDue = ASKED;
             return 0;
         }
 
@@ -2622,14 +2635,7 @@ public final class ShellPair {
             message.putName(method);
         }
 
-        private void asks(int due) {
-            if (sends(message)) {
-                answerDue = due;
-                requests++;
-            }
-        }
-
-        private int asksNext() {
+        private int preparesNext() {
             int at = body.nextText();
             int n = body.textSize;
             body.nextByte();
@@ -2645,7 +2651,7 @@ public final class ShellPair {
                 beginsAsking("publickey");
                 message.put(0);
                 putsKey();
-                asks(ASKED_FOR_KEY);
+                answerDue = ASKED_FOR_KEY;
                 return 0;
             }
             if (password.size > 0 && !triedPassword && isListed(at, n, "password")) {
@@ -2653,7 +2659,7 @@ public final class ShellPair {
                 beginsAsking("password");
                 message.put(0);
                 message.putString(password);
-                asks(ASKED);
+                answerDue = ASKED;
                 return 0;
             }
             return NO_METHOD_LEFT;
@@ -2672,7 +2678,7 @@ public final class ShellPair {
             message.putArrayString(askedPublic, 32);
         }
 
-        private int asksWithProof() {
+        private int preparesProof() {
             int name = body.nextText();
             int nameSize = body.textSize;
             int blob = body.nextText();
@@ -2681,7 +2687,6 @@ public final class ShellPair {
                     || !body.sameArray(blob + blobSize - 32, 32, askedPublic)) {
                 return PROTOCOL_ERROR;
             }
-            answerDue = 0;
             message.clear();
             message.put(50);
             message.putString(askedUser);
@@ -2696,7 +2701,7 @@ public final class ShellPair {
             message.putInt(8 + ED25519.length() + 64);
             message.putName(ED25519);
             message.putArrayString(signature, 64);
-            asks(ASKED);
+            answerDue = ASKED;
             return 0;
         }
 
