@@ -18,6 +18,7 @@ final class Rig {
     }
 
     Rig tape(byte[] b) {
+        x.end(0);
         for (int i = 0; i < b.length; i += 20) {
             ByteBuffer five = ByteBuffer.wrap(Arrays.copyOf(Arrays.copyOfRange(b, i, Math.min(b.length, i + 20)), 20));
             x.feed(five.getInt(), five.getInt(), five.getInt(), five.getInt(), five.getInt());

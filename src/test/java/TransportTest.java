@@ -1,0 +1,477 @@
+import java.util.Arrays;
+import java.util.NoSuchElementException;
+
+/** Promises 9 to 11, 13 and 19: lines, packets and the exchange of keys, on a wire that is altered. */
+public final class TransportTest {
+    public static void main(String[] args) {
+        lines();
+        linesPassedOver();
+        lengths();
+        plainMessages();
+        malformed();
+        choices();
+        noChoice();
+        wrongGuess();
+        server30();
+        client31();
+        notDue();
+        enciphered();
+        rekeys();
+        limit();
+        waits();
+        waitsTooMuch();
+        wireIsFull();
+        Check.close();
+    }
+
+    /** The state of END e when these bytes come to it first. */
+    private static String first(int e, byte[] b) {
+        Rig r = Rig.ready();
+        r.x.start();
+        byte[] is = r.wire(e);
+        byte[] want = b.length >= is.length ? b : Arrays.copyOf(b, is.length);
+        r.rewire(e, want);
+        r.x.move(e, b.length);
+        return r.state(e);
+    }
+
+    private static byte[] line(int n, String begin, String end) {
+        StringBuilder s = new StringBuilder(begin);
+        while (s.length() < n - end.length()) {
+            s.append('x');
+        }
+        return Rig.latin(s.append(end).toString());
+    }
+
+    private static void lines() {
+        for (int e = 0; e < 2; e++) {
+            Check.due("least line", first(e, Rig.latin("SSH-2.0-\n")), "1/0");
+            Check.due("with CR", first(e, Rig.latin("SSH-2.0-a b~\r\n")), "1/0");
+            Check.due("255 bytes", first(e, line(255, "SSH-2.0-", "\r\n")), "1/0");
+            Check.due("256 bytes", first(e, line(256, "SSH-2.0-", "\r\n")), "2/8");
+            Check.due("255 bytes without LF", first(e, line(255, "SSH-2.0-", "")), "1/0");
+            Check.due("256 bytes without LF", first(e, line(256, "other", "")), "2/8");
+            Check.due("another version", first(e, Rig.latin("SSH-1.99-x\r\n")), "2/8");
+            Check.due("too short", first(e, Rig.latin("SSH-2.0\r\n")), "2/8");
+            Check.due("two CR", first(e, Rig.latin("SSH-2.0-x\r\r\n")), "2/8");
+            Check.due("byte 31", first(e, Rig.latin("SSH-2.0-x\u001f\n")), "2/8");
+            Check.due("byte 127", first(e, Rig.latin("SSH-2.0-x\u007f\n")), "2/8");
+            Check.due("byte 200", first(e, Rig.latin("SSH-2.0-x\u00c8\n")), "2/8");
+        }
+        Check.due("another line at the server", first(1, Rig.latin("hello\n")), "2/8");
+        Check.due("another line at the client", first(0, Rig.latin("hello\n")), "1/0");
+        Check.due("an empty line at the server", first(1, Rig.latin("\n")), "2/8");
+    }
+
+    private static void linesPassedOver() {
+        Check.due("eight", first(0, Rig.latin("\r\nSSH\n3\n4\n5\n6\n7\n\u00ff\nSSH-2.0-x\n")), "1/0");
+        Check.due("nine", first(0, Rig.latin("1\n2\n3\n4\n5\n6\n7\n8\n9\n")), "2/8");
+        Rig r = Rig.ready();
+        r.x.start();
+        byte[] wire = r.wire(0);
+        r.rewire(0, Crypto.join(Rig.latin("\n\n\nabc\n"), wire));
+        r.settle();
+        Check.due("and then all goes on", r.x.about(0, 8), 1);
+    }
+
+    private static byte[] packet(int padding, byte[] payload) {
+        return new Msg().u32(1 + payload.length + padding).u8(padding).raw(payload).raw(new byte[padding]).bytes();
+    }
+
+    /** The server when these bytes come behind the client's line. */
+    private static Rig behindLine(byte[] b) {
+        Rig r = Rig.ready();
+        r.x.start();
+        byte[] is = r.wire(1);
+        byte[] want = Crypto.join(Arrays.copyOf(is, 18), b);
+        r.rewire(1, want.length < is.length ? Arrays.copyOf(want, is.length) : want);
+        r.x.move(1, want.length);
+        return r;
+    }
+
+    private static void lengths() {
+        Check.due("7 bytes of a wrong length", behindLine(Crypto.bytes("00000000000000")).state(1), "1/0");
+        Check.due("length 0", behindLine(Crypto.bytes("0000000000000000")).state(1), "2/2");
+        Check.due("length 4", behindLine(Crypto.bytes("0000000400000000")).state(1), "2/2");
+        Check.due("length 12", behindLine(Crypto.bytes("0000000c00000000")).state(1), "1/0");
+        Check.due("length 13", behindLine(Crypto.bytes("0000000d00000000")).state(1), "2/2");
+        Check.due("length 34996", behindLine(Crypto.bytes("000088b400000000")).state(1), "1/0");
+        Check.due("length 35004", behindLine(Crypto.bytes("000088bc00000000")).state(1), "2/2");
+        Check.due("length below 0", behindLine(Crypto.bytes("ffffff0c00000000")).state(1), "2/2");
+        Check.due("padding 3", behindLine(new Msg().u32(12).u8(3).raw(new byte[11]).bytes()).state(1), "2/2");
+        Check.due("padding 11 of 12", behindLine(new Msg().u32(12).u8(11).raw(new byte[11]).bytes()).state(1), "2/2");
+        Rig r = behindLine(new Msg().u32(12).u8(10).u8(200).raw(new byte[10]).bytes());
+        Check.due("padding 10 of 12", r.state(1), "1/0");
+        Check.due("it is taken", r.x.about(1, 3), 1);
+        Check.due("and answered by 3", r.x.about(0, 5), 282 + 16);
+        Check.due("with its number", Arrays.copyOfRange(r.wire(0), 282, 292), Crypto.bytes("0000000c060300000000"));
+        Check.due("not taken", behindLine(new Msg().u32(12).u8(3).raw(new byte[11]).bytes()).x.about(1, 3), 0);
+    }
+
+    private static String plain(Msg... all) {
+        byte[] b = new byte[0];
+        for (Msg m : all) {
+            byte[] payload = m.bytes();
+            int padding = 8 - (5 + payload.length) % 8;
+            b = Crypto.join(b, packet(padding < 4 ? padding + 8 : padding, payload));
+        }
+        Rig r = behindLine(b);
+        return r.state(1) + "/" + r.x.about(1, 3);
+    }
+
+    private static void plainMessages() {
+        Check.due("1", plain(Msg.of(1).u32(77).str("bye").str("en")), "3/77/1");
+        Check.due("1 with more", plain(Msg.of(1).u32(77).str("bye").str("en").u8(1)), "3/77/1");
+        Check.due("1 without language", plain(Msg.of(1).u32(77).str("bye")), "2/2/1");
+        Check.due("2, 3, 4", plain(Msg.of(2).str("x"), Msg.of(3).u32(0), Msg.of(4).u8(1).str("").str("y").u32(5)), "1/0/3");
+        Check.due("2 cut off", plain(Msg.of(2).u32(5)), "2/2/1");
+        Check.due("3 cut off", plain(Msg.of(3).u8(5)), "2/2/1");
+        Check.due("4 cut off", plain(Msg.of(4).u8(5).str("a")), "2/2/1");
+        Check.due("unnamed", plain(Msg.of(200), Msg.of(0), Msg.of(19), Msg.of(53), Msg.of(101)), "1/0/5");
+        for (int number : new int[] {5, 6, 21, 30, 31, 50, 51, 52, 60, 80, 81, 82, 90, 91, 92, 93, 94, 95, 96, 97, 98, 99, 100}) {
+            Check.due(number + " before 20", plain(Msg.of(number).str("ssh-userauth")), "2/2/1");
+        }
+    }
+
+    private static Msg init(String keys, String host, String[] six, int follows) {
+        Msg m = Msg.of(20).raw(new byte[16]).str(keys).str(host);
+        for (String s : six) {
+            m.str(s);
+        }
+        return m.str("").str("").u8(follows).u32(0);
+    }
+
+    private static String[] six(String c1, String c2, String m1, String m2, String z1, String z2) {
+        return new String[] {c1, c2, m1, m2, z1, z2};
+    }
+
+    private static final String[] PLAIN = six("aes128-ctr", "aes256-ctr", "hmac-sha2-256",
+            "hmac-sha2-256-etm@openssh.com", "none", "none");
+
+    private static void malformed() {
+        Msg good = init("curve25519-sha256", "ssh-ed25519", PLAIN, 0);
+        Check.due("20", plain(good), "1/0/1");
+        Check.due("20 with more", plain(new Msg().raw(good.bytes()).u8(0)), "2/2/1");
+        Check.due("20 cut off", plain(new Msg().raw(Arrays.copyOf(good.bytes(), good.bytes().length - 1))), "2/2/1");
+        Check.due("20 twice", plain(good, good), "2/2/2");
+        Check.due("2 behind 20", plain(good, Msg.of(2).str("")), "1/0/2");
+        Check.due("unnamed behind 20", plain(good, Msg.of(200)), "2/2/2");
+        Check.due("21 with more", plain(good, Msg.of(30).str(Crypto.x25519Public(Rig.HOST)), Msg.of(21).u8(0)), "2/2/3");
+        Check.due("30 with more", plain(good, Msg.of(30).str(new byte[32]).u8(0)), "2/2/2");
+    }
+
+    /** Each direction has its own: the client's first that the server has. */
+    private static void choices() {
+        Rig r = Rig.ready();
+        r.x.start();
+        Msg mine = init("x,curve25519-sha256@libssh.org", ",ssh-rsa,ssh-ed25519,", six("aes256-ctr,aes128-ctr",
+                "3des-cbc,aes128-ctr", "hmac-sha2-256", "none,hmac-sha2-256-etm@openssh.com,hmac-sha2-256", "zlib,none",
+                "none,zlib"), 0);
+        byte[] payload = mine.bytes();
+        byte[] p = Crypto.join(Arrays.copyOf(r.wire(1), 18), packet(64 + 8 - (5 + payload.length) % 8, payload));
+        r.rewire(1, p);
+        r.x.move(1, 1000);
+        Check.due("something to choose", r.state(1), "1/0");
+        byte[] q = packet(6, Msg.of(30).str(Crypto.x25519Public(Rig.HOST)).bytes());
+        r.tape(q).x.inject(1);
+        r.x.move(1, 1000);
+        Check.due("cipher", r.x.about(1, 6), 1);
+        Check.due("mac", r.x.about(1, 7), 2);
+        Check.due("31 and 21 are sent", r.x.about(1, 2), 3);
+        Check.due("no exchange is complete", r.x.about(1, 4), 0);
+        r.tape(packet(10, new byte[] {21})).x.inject(1);
+        r.x.move(1, 1000);
+        Check.due("one exchange is complete", r.x.about(1, 4), 1);
+        Check.due("open", r.state(1), "1/0");
+    }
+
+    private static void noChoice() {
+        String[] names = {"curve25519-sha256", "ssh-ed25519", "aes128-ctr", "aes128-ctr", "hmac-sha2-256", "hmac-sha2-256",
+            "none", "none"};
+        for (int i = 0; i < 8; i++) {
+            for (String other : new String[] {"", "x", "aes128-ct", "none,"}) {
+                String[] n = names.clone();
+                n[i] = other.equals("none,") && i < 6 ? "none" : other.equals("none,") ? "nones" : other;
+                Msg m = init(n[0], n[1], six(n[2], n[3], n[4], n[5], n[6], n[7]), 0);
+                Check.due("no choice in list " + i, plain(m), "2/3/1");
+            }
+        }
+        Rig r = Rig.ready();
+        r.x.set(0, 1, 1);
+        r.x.set(1, 1, 2);
+        r.x.start();
+        r.x.move(0, 1000);
+        Check.due("at the client", r.state(0), "2/3");
+        Check.due("it has sent MESSAGE 1", r.x.about(0, 2), 2);
+    }
+
+    private static void wrongGuess() {
+        Msg right = init("curve25519-sha256,x", "ssh-ed25519,y", PLAIN, 1);
+        Msg keys = init("curve25519-sha256@libssh.org", "ssh-ed25519", PLAIN, 255);
+        Msg host = init("curve25519-sha256", "ssh-rsa,ssh-ed25519", PLAIN, 1);
+        Msg none = init("curve25519-sha256@libssh.org", "ssh-ed25519", PLAIN, 0);
+        Check.due("right guess", plain(right, Msg.of(31)), "2/2/2");
+        Check.due("no guess", plain(none, Msg.of(31)), "2/2/2");
+        Check.due("wrong keys", plain(keys, Msg.of(31)), "1/0/2");
+        Check.due("wrong host key", plain(host, Msg.of(31)), "1/0/2");
+        Check.due("only the next", plain(host, Msg.of(31), Msg.of(31)), "2/2/3");
+    }
+
+    private static void server30() {
+        Msg good = init("curve25519-sha256", "ssh-ed25519", PLAIN, 0);
+        Check.due("30 of 31 bytes", plain(good, Msg.of(30).str(new byte[31])), "2/3/2");
+        Check.due("30 of 33 bytes", plain(good, Msg.of(30).str(new byte[33])), "2/3/2");
+        Check.due("a shared secret of 0", plain(good, Msg.of(30).str(new byte[32])), "2/3/2");
+        byte[] one = new byte[32];
+        one[0] = 1;
+        Check.due("another of 0", plain(good, Msg.of(30).str(one)), "2/3/2");
+        byte[] point = Crypto.x25519Public(Rig.HOST);
+        Check.due("30", plain(good, Msg.of(30).str(point)), "1/0/2");
+        Check.due("30 twice", plain(good, Msg.of(30).str(point), Msg.of(30).str(point)), "2/2/3");
+        Check.due("21 before 30", plain(good, Msg.of(21)), "2/2/2");
+        Check.due("31 at the server", plain(good, Msg.of(31).str("").str("").str("")), "2/2/2");
+        point[31] ^= (byte) 128;
+        Check.due("the highest bit does not count", plain(good, Msg.of(30).str(point)), "1/0/2");
+    }
+
+    /** The client's state, and whether it knows a session's id, behind a 31 with this of it changed. */
+    private static String with31(byte[] hostKey, byte[] point, byte[] signatureName, int change, boolean more) {
+        Rig r = Rig.ready();
+        Peer p = new Peer(r, 1).begins();
+        p.answers30();
+        byte[] signed = Crypto.edSign(Rig.HOST, p.hash);
+        if (change >= 0) {
+            signed[change] ^= 1;
+        }
+        byte[] own = point == null ? Crypto.x25519Public(p.secret) : point;
+        byte[] host = hostKey == null ? Peer.blob(Crypto.edPublic(Rig.HOST)) : hostKey;
+        byte[] signature = new Msg().raw(signatureName).str(signed).bytes();
+        Msg m = Msg.of(31).str(host).str(own).str(signature);
+        p.send(more ? m.u8(0) : m);
+        return r.state(0) + "/" + (r.x.about(0, 11) != 0);
+    }
+
+    private static void client31() {
+        byte[] name = new Msg().str("ssh-ed25519").bytes();
+        byte[] pub = Crypto.edPublic(Rig.HOST);
+        Check.due("31", with31(null, null, name, -1, false), "1/0/true");
+        Check.due("31 with more", with31(null, null, name, -1, true), "2/2/false");
+        Check.due("wrong R", with31(null, null, name, 0, false), "2/3/true");
+        Check.due("wrong S", with31(null, null, name, 40, false), "2/3/true");
+        Check.due("signature's name", with31(null, null, new Msg().str("ssh-ed25518").bytes(), -1, false), "2/3/false");
+        Check.due("Q_S of 31", with31(null, new byte[31], name, -1, false), "2/3/false");
+        Check.due("K of 0", with31(null, new byte[32], name, -1, false), "2/3/false");
+        Check.due("K_S's name", with31(new Msg().str("ssh-rsa").str(pub).bytes(), null, name, -1, false), "2/3/false");
+        Check.due("K_S with more", with31(new Msg().raw(Peer.blob(pub)).u8(0).bytes(), null, name, -1, false), "2/3/false");
+        Check.due("K_S of 31", with31(Peer.blob(Arrays.copyOf(pub, 31)), null, name, -1, false), "2/3/false");
+        Check.due("another K_S", with31(Peer.blob(Crypto.edPublic(Rig.IDENTITY)), null, name, -1, false), "2/3/true");
+        byte[] notAPoint = new byte[32];
+        notAPoint[0] = 2;
+        Check.due("K_S that is no point", with31(Peer.blob(notAPoint), null, name, -1, false), "2/3/true");
+
+        Rig r = Rig.ready().secret(4, Crypto.edPublic(Rig.IDENTITY));
+        r.x.start();
+        r.settle();
+        Check.due("another host key is known", r.state(0) + r.state(1), "2/93/9");
+        Rig s = new Rig().secret(2, Rig.HOST);
+        s.x.start();
+        s.settle();
+        Check.due("none is known: it goes on, till no method is left", s.state(0) + s.state(1), "2/143/14");
+    }
+
+    private static void notDue() {
+        for (int number : new int[] {21, 30, 31, 22 + 20, 51, 52, 60, 6, 50, 80, 90, 94, 99}) {
+            Rig r = Rig.ready();
+            Peer p = Peer.client(r);
+            p.send(Msg.of(number).str("ssh-userauth"));
+            Check.due(number + " behind the exchange at the server", r.state(1), number == 42 ? "1/0" : "2/2");
+        }
+        for (int number : new int[] {21, 30, 31, 5, 50, 51, 52, 60, 80, 90, 94, 99}) {
+            Rig r = Rig.ready();
+            Peer p = Peer.server(r);
+            p.send(Msg.of(number).str("ssh-userauth"));
+            Check.due(number + " behind the exchange at the client", r.state(0), "2/2");
+        }
+        Rig r = Rig.ready();
+        Peer p = Peer.client(r);
+        p.send(Msg.of(2).str("x"));
+        p.send(Msg.of(77));
+        Check.due("3 with the number", p.next(), Msg.of(3).u32(4).bytes());
+        p.send(Msg.of(1).u32(12).str("").str(""));
+        Check.due("told", r.state(1), "3/12");
+    }
+
+    private static void enciphered() {
+        for (int mac = 1; mac <= 2; mac++) {
+            for (int at : new int[] {0, 3, 5, 20, 50, 60}) {
+                Rig r = Rig.ready();
+                r.x.set(1, 1, mac);
+                Peer p = new Peer(r, 0);
+                p.mac = mac;
+                p.begins().exchangesAsClient();
+                byte[] b = p.sealed(Msg.of(5).str("ssh-userauth").bytes());
+                r.tape(b).x.inject(1);
+                r.x.flip(1, at, 1);
+                int taken = r.x.about(1, 3);
+                r.x.move(1, b.length);
+                Check.due("byte " + at + " altered, MAC " + mac, r.state(1), at < 4 ? "2/2" : "2/5");
+                Check.due("it is not taken", r.x.about(1, 3), taken);
+            }
+            for (int padding = 3; padding <= 5; padding += 2) {
+                Rig r = Rig.ready();
+                r.x.set(1, 1, mac);
+                Peer p = new Peer(r, 0);
+                p.mac = mac;
+                p.begins().exchangesAsClient();
+                byte[] b = p.sealed(Msg.of(2).u32(0).raw(new byte[(mac == 1 ? 6 : 10) - padding]).bytes(), padding);
+                r.tape(b).x.inject(1);
+                r.x.move(1, b.length - 1);
+                Check.due("not whole yet", r.state(1), "1/0");
+                r.x.move(1, 1);
+                Check.due("MAC " + mac + ", padding " + padding, r.state(1), padding == 3 ? "2/2" : "1/0");
+            }
+        }
+        Rig r = Rig.ready();
+        Peer p = Peer.client(r);
+        r.tape(p.sealed(new byte[12], 3)).x.inject(1);
+        r.x.move(1, 1000);
+        Check.due("padding 3 in ETM", r.state(1), "2/2");
+        byte[] sent = Msg.from(p.next()).takeRaw(5);
+        Check.due("told", sent, Crypto.bytes("0100000002"));
+    }
+
+    private static void rekeys() {
+        Rig r = Rig.ready().withKey();
+        r.x.start();
+        Check.throwing("rekey too early", IllegalStateException.class, () -> r.x.rekey(0));
+        r.settle();
+        int id = r.x.about(0, 11);
+        r.x.set(0, 0, 1);
+        r.x.set(1, 1, 1);
+        r.x.rekey(0);
+        Check.throwing("rekey twice", IllegalStateException.class, () -> r.x.rekey(0));
+        r.x.rekey(1);
+        r.settle();
+        Check.due("two exchanges", r.x.about(0, 4) + r.x.about(1, 4), 4);
+        Check.due("the first H stays", r.x.about(0, 11), id);
+        Check.due("cipher", r.x.about(1, 6), 1);
+        Check.due("mac", r.x.about(1, 7), 1);
+        r.x.rekey(1);
+        r.x.move(0, 10000);
+        Check.throwing("its KEXINIT is sent as an answer", IllegalStateException.class, () -> r.x.rekey(0));
+        r.settle();
+        Check.due("three exchanges", r.x.about(0, 4) + r.x.about(1, 4), 6);
+        Check.throwing("rekey nowhere", NoSuchElementException.class, () -> r.x.rekey(2));
+        r.x.quit(0);
+        Check.throwing("rekey when closed", IllegalStateException.class, () -> r.x.rekey(0));
+        Check.due("still a shell", Rig.proven().run("echo x", ""), "0|x\n|");
+        Rig s = Rig.ready();
+        Peer p = Peer.client(s);
+        s.x.rekey(1);
+        p.theirInit = p.next();
+        p.ownInit = init("curve25519-sha256", "ssh-ed25519", six("aes128-ctr", "aes128-ctr", PLAIN[3], PLAIN[3], "none", "none"), 0)
+                .bytes();
+        p.send(new Msg().raw(p.ownInit));
+        p.exchangesAsClient();
+        Check.due("against the library", s.x.about(1, 4), 2);
+        p.send(Msg.of(5).str("ssh-userauth"));
+        Check.due("with new keys", p.next(), Msg.of(6).str("ssh-userauth").bytes());
+    }
+
+    private static void limit() {
+        Rig r = Rig.ready();
+        r.x.set(1, 4, 256);
+        Peer p = Peer.provenClient(r);
+        // 6 is 68 bytes, 52 is 52: 82 (52 bytes) and one more reach 256 with the fifth packet.
+        for (int i = 0; i < 2; i++) {
+            p.send(Msg.of(80).str("x").u8(1));
+            Check.due("82", p.next(), new byte[] {82});
+            Check.due("no KEXINIT yet at " + i, p.next() == null ? 1 : 0, 1);
+        }
+        p.send(Msg.of(80).str("x").u8(1));
+        Check.due("82 reaches it", p.next(), new byte[] {82});
+        Check.due("KEXINIT behind it", p.next()[0], 20);
+        Rig s = Rig.ready().withKey();
+        s.x.set(0, 4, 256);
+        s.x.set(1, 4, 256);
+        s.x.start();
+        s.settle();
+        Check.due("proven all the same", s.x.about(0, 8), 1);
+        Check.due("with an exchange more", s.x.about(0, 4), 2);
+        Check.due("and it works", s.run("put f", "some more than a few bytes"), "0||");
+        Check.due("so it does", s.run("get f", ""), "0|some more than a few bytes|");
+        Check.due("both complete as many", s.x.about(0, 4), s.x.about(1, 4));
+    }
+
+    private static void waits() {
+        Rig r = Rig.ready();
+        Peer p = Peer.provenClient(r);
+        r.x.rekey(1);
+        p.theirInit = p.next();
+        int sent = r.x.about(1, 2);
+        p.send(Msg.of(80).str("x").u8(1));
+        p.send(Msg.of(90).str("session").u32(3).u32(100).u32(50));
+        Check.due("answers wait", r.x.about(1, 2), sent);
+        Check.due("the channel is there", r.x.about(1, 9), 1);
+        p.send(Msg.of(99 + 78));
+        Check.due("3 does not wait", Arrays.copyOf(p.next(), 1), new byte[] {3});
+        p.ownInit = init("curve25519-sha256", "ssh-ed25519", six("aes128-ctr", "aes128-ctr", PLAIN[3], PLAIN[3], "none", "none"), 0)
+                .bytes();
+        p.send(new Msg().raw(p.ownInit));
+        p.exchangesAsClient();
+        Check.due("82 behind 21", p.next(), new byte[] {82});
+        Check.due("91 behind it", p.next(), Msg.of(91).u32(3).u32(0).u32(4096).u32(1024).bytes());
+        Check.due("and no more", p.next() == null ? 1 : 0, 1);
+        Rig c = Rig.proven();
+        c.x.rekey(0);
+        int number = c.x.open(0);
+        Check.due("asked for", c.x.channel(number, 0), 0);
+        c.settle();
+        Check.due("there", c.x.channel(number, 0), 1);
+    }
+
+    /** Each that waits counts its bytes and 4 more, up to 65,536. */
+    private static void waitsTooMuch() {
+        for (int over = 0; over <= 1; over++) {
+            Rig r = Rig.ready();
+            r.x.set(1, 2, 16384);
+            r.x.set(1, 3, 32768);
+            Peer p = Peer.provenClient(r);
+            p.send(Msg.of(90).str("session").u32(3).u32(1 << 20).u32(32768));
+            p.next();
+            p.send(Msg.of(98).u32(0).str("exec").u8(0).str("cat"));
+            r.x.rekey(1);
+            // A 94 of n bytes counts n + 13, the 93 behind each of these 13.
+            int left = 65536;
+            for (int n : new int[] {16000, 16000, 16000, 10000}) {
+                p.send(Msg.of(94).u32(0).str(new byte[n]));
+                left -= n + 13 + 13;
+            }
+            Check.due("open till then", r.state(1), "1/0");
+            p.send(Msg.of(94).u32(0).str(new byte[left - 13 + over]));
+            Check.due("what waits, over " + over, r.state(1), over == 1 ? "2/10" : "1/0");
+        }
+    }
+
+    private static void wireIsFull() {
+        for (int room = 67; room <= 68; room++) {
+            Rig r = Rig.proven();
+            int left = 131072 - r.x.about(1, 5) - room;
+            while (left > 0) {
+                int n = Math.min(left, 65000);
+                r.tape(new byte[n]).x.inject(1);
+                left -= n;
+            }
+            int sent = r.x.about(0, 2);
+            int number = r.x.open(0);
+            Check.due("90 of 68 bytes with room for " + room, r.state(0), room == 68 ? "1/0" : "2/10");
+            Check.due("packets", r.x.about(0, 2), room == 68 ? sent + 1 : sent);
+            Check.due("the wire", r.x.about(1, 5), room == 68 ? 131072 : 131072 - room);
+            Check.due("its number", number, 0);
+            if (room == 68) {
+                r.x.quit(0);
+                Check.due("no room for MESSAGE 1", r.state(0), "2/10");
+            }
+        }
+    }
+}
