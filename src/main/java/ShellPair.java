@@ -2419,7 +2419,6 @@ public final class ShellPair {
                 if (!sends(message)) {
                     return 0;
                 }
-                c.mark(Channel.CLOSE_SENT);
             }
             c.state = isClient ? Channel.GONE : Channel.UNUSED;
             return 0;
@@ -3201,8 +3200,6 @@ public final class ShellPair {
                 Channel c = channels[i];
                 if (c.state == Channel.THERE && !c.is(Channel.CLOSE_SENT)) {
                     worksOn(c);
-                } else if (c.state == Channel.THERE && c.stage == DONE) {
-                    c.in.clear();
                 }
             }
         }

@@ -6,6 +6,7 @@ public final class AskingTest {
     public static void main(String[] args) {
         services();
         methodsAtTheServer();
+        strangersKeys();
         malformed();
         sixFailures();
         behindProof();
@@ -38,6 +39,10 @@ public final class AskingTest {
         Check.due("6 again", p.next(), Msg.of(6).str("ssh-userauth").bytes());
         p.send(Msg.of(5).str("ssh-connection"));
         Check.due("another service", p.rig.state(1), "2/7");
+        Rig r = asking().rig;
+        p = Peer.client(r);
+        p.send(ask("al", "none"));
+        Check.due("50 before the 6 of this connection", p.rig.state(1), "2/2");
         p = Peer.client(Rig.ready());
         p.send(Msg.of(5).str("ssh-userauth").u8(0));
         Check.due("5 with more", p.rig.state(1), "2/2");
@@ -86,6 +91,32 @@ public final class AskingTest {
         Check.due("right", p.next(), new byte[] {52});
         Check.due("proven", p.rig.x.about(1, 8), 1);
         Check.due("failures stay told", p.rig.x.about(1, 10), 5);
+    }
+
+    /** A good signature is of no use without an ACCOUNT that has its key. */
+    private static void strangersKeys() {
+        Peer p = asking();
+        byte[] own = Crypto.edPublic(Rig.HOST);
+        for (String user : new String[] {"al", "bo", "nobody"}) {
+            byte[] signed = ask(user, "publickey").u8(1).str("ssh-ed25519").str(Peer.blob(own)).bytes();
+            byte[] proof = Crypto.edSign(Rig.HOST, new Msg().str(p.session).raw(signed).bytes());
+            p.send(new Msg().raw(signed).str(Peer.blob(proof)));
+            Check.due("a key of nobody's for " + user, p.next(), FAILS);
+        }
+        byte[] signed = ask("al", "publickey").u8(1).str("ssh-rsa").str(Peer.blob(KEY)).bytes();
+        byte[] proof = Crypto.edSign(Rig.IDENTITY, new Msg().str(p.session).raw(signed).bytes());
+        p.send(new Msg().raw(signed).str(Peer.blob(proof)));
+        Check.due("another algorithm", p.next(), FAILS);
+        signed = ask("bo", "publickey").u8(1).str("ssh-ed25519").str(Peer.blob(KEY)).bytes();
+        proof = Crypto.edSign(Rig.IDENTITY, new Msg().str(p.session).raw(signed).bytes());
+        p.send(new Msg().raw(signed).str(Peer.blob(proof)));
+        Check.due("another's key", p.next(), FAILS);
+        Check.due("all count", p.rig.x.about(1, 10), 5);
+        signed = ask("al", "publickey").u8(1).str("ssh-ed25519").str(Peer.blob(KEY)).bytes();
+        proof = Crypto.edSign(Rig.IDENTITY, new Msg().str(p.session).raw(signed).bytes());
+        p.send(new Msg().raw(signed).str(new Msg().str("ssh-ed25519").str(proof).u8(0).bytes()));
+        Check.due("a signature of another shape", p.next(), FAILS);
+        Check.due("six", p.rig.state(1), "2/14");
     }
 
     private static void malformed() {
@@ -202,6 +233,12 @@ public final class AskingTest {
         p.next();
         p.send(Msg.of(60).str("ssh-ed25519").str(Peer.blob(Crypto.edPublic(Rig.HOST))));
         Check.due("60 with another key", p.rig.state(0), "2/2");
+
+        p = asked(true);
+        p.send(Msg.of(51).str("publickey,password").u8(0));
+        p.next();
+        p.send(Msg.of(60).str("ssh-rsa").str(Peer.blob(KEY)));
+        Check.due("60 with another name", p.rig.state(0), "2/2");
 
         p = asked(true);
         p.send(Msg.of(51).str("publickey").u8(0));

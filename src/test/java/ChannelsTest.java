@@ -189,6 +189,11 @@ public final class ChannelsTest {
         r.x.set(0, 2, 10000);
         Check.due("read one", r.x.read(0, 1, 1), (1L << 56) + 'r');
         Check.due("WINDOW as set now", p.next(), Msg.of(93).u32(9).u32(5904).bytes());
+        Peer empty = server(100, 100);
+        empty.rig.x.set(0, 2, 16384);
+        empty.rig.x.read(0, 0, 7);
+        empty.rig.x.read(0, 1, 7);
+        none("nothing was read, nothing is looked at", empty);
         r.x.set(0, 2, 1);
         p.send(Msg.of(95).u32(0).u32(2).str("dropped"));
         none("much is left", p);
@@ -383,6 +388,7 @@ public final class ChannelsTest {
         int d = r.x.open(0);
         Check.due("its number is used again", d, c);
         Check.due("told of anew", r.x.channel(d, 2) + "/" + r.x.channel(d, 9), "-1/0");
+        Check.due("with new windows", r.x.channel(d, 6) + "/" + r.x.channel(d, 7), "0/4096");
         r.settle();
         r.exec(d, "cat");
         r.exec(d, "echo x");

@@ -12,12 +12,14 @@ public final class TransportTest {
         choices();
         noChoice();
         wrongGuess();
+        startsAnew();
         server30();
         client31();
         notDue();
         enciphered();
         rekeys();
         limit();
+        limitBehindAnExchange();
         waits();
         waitsTooMuch();
         wireIsFull();
@@ -189,9 +191,9 @@ public final class TransportTest {
         String[] names = {"curve25519-sha256", "ssh-ed25519", "aes128-ctr", "aes128-ctr", "hmac-sha2-256", "hmac-sha2-256",
             "none", "none"};
         for (int i = 0; i < 8; i++) {
-            for (String other : new String[] {"", "x", "aes128-ct", "none,"}) {
+            for (String other : new String[] {"", "x", "aes128-ct", names[i] + "x", "x" + names[i]}) {
                 String[] n = names.clone();
-                n[i] = other.equals("none,") && i < 6 ? "none" : other.equals("none,") ? "nones" : other;
+                n[i] = other;
                 Msg m = init(n[0], n[1], six(n[2], n[3], n[4], n[5], n[6], n[7]), 0);
                 Check.due("no choice in list " + i, plain(m), "2/3/1");
             }
@@ -215,6 +217,25 @@ public final class TransportTest {
         Check.due("wrong keys", plain(keys, Msg.of(31)), "1/0/2");
         Check.due("wrong host key", plain(host, Msg.of(31)), "1/0/2");
         Check.due("only the next", plain(host, Msg.of(31), Msg.of(31)), "2/2/3");
+    }
+
+    private static void startsAnew() {
+        Msg wrong = init("curve25519-sha256@libssh.org", "ssh-ed25519", PLAIN, 1);
+        byte[] payload = wrong.bytes();
+        Rig r = behindLine(packet(8 + 8 - (5 + payload.length) % 8, payload));
+        r.x.start();
+        r.settle();
+        Check.due("nothing is passed over", r.x.about(0, 8), 1);
+        r.x.start();
+        r.x.move(0, 5);
+        r.x.move(1, 100);
+        r.x.start();
+        r.settle();
+        Check.due("what had come in part is forgotten", r.x.about(0, 8), 1);
+        r.secret(2, Rig.IDENTITY).secret(4, Crypto.edPublic(Rig.IDENTITY));
+        r.x.start();
+        r.settle();
+        Check.due("with another host key", r.x.about(0, 8), 1);
     }
 
     private static void server30() {
@@ -401,6 +422,26 @@ public final class TransportTest {
         Check.due("and it works", s.run("put f", "some more than a few bytes"), "0||");
         Check.due("so it does", s.run("get f", ""), "0|some more than a few bytes|");
         Check.due("both complete as many", s.x.about(0, 4), s.x.about(1, 4));
+    }
+
+    /** What waited is more than LIMIT: KEXINIT as soon as the exchange is complete. */
+    private static void limitBehindAnExchange() {
+        Rig r = Rig.ready();
+        Peer p = Peer.provenClient(r);
+        r.x.rekey(1);
+        p.theirInit = p.next();
+        for (int i = 0; i < 6; i++) {
+            p.send(Msg.of(80).str("x").u8(1));
+        }
+        r.x.set(1, 4, 256);
+        p.ownInit = init("curve25519-sha256", "ssh-ed25519", six("aes128-ctr", "aes128-ctr", PLAIN[3], PLAIN[3], "none", "none"), 0)
+                .bytes();
+        p.send(new Msg().raw(p.ownInit));
+        p.exchangesAsClient();
+        for (int i = 0; i < 6; i++) {
+            Check.due("82 that waited", p.next(), new byte[] {82});
+        }
+        Check.due("KEXINIT behind them", p.next()[0], 20);
     }
 
     private static void waits() {
