@@ -2495,6 +2495,7 @@ public final class ShellPair {
         private static final int ASKED_FOR_KEY = 2;
         private static final int NO_METHOD_LEFT = 14;
         private static final int ANOTHER_HOST_KEY = 9;
+        private static final int NOT_ALLOWED = 1;
 
         final Bytes knownHost = new Bytes(32);
         private final Bytes user = new Bytes(32);
@@ -2762,7 +2763,7 @@ public final class ShellPair {
             message.clear();
             message.put(92);
             message.putInt(number);
-            message.putInt(1);
+            message.putInt(NOT_ALLOWED);
             message.putInt(0);
             message.putInt(0);
             sends(message);
@@ -2849,7 +2850,6 @@ public final class ShellPair {
         private static final int NO_METHOD_LEFT = 14;
         private static final int FAILURES = 6;
 
-        private static final int NOT_ALLOWED = 1;
         private static final int NO_CONNECTION = 2;
         private static final int UNKNOWN_TYPE = 3;
         private static final int NO_ROOM = 4;
@@ -2879,6 +2879,7 @@ public final class ShellPair {
         private final Bytes text = new Bytes(256);
         private final byte[] key = new byte[32];
         private final byte[] signature = new byte[64];
+        private final byte[] sum = new byte[32];
         private boolean serviceGiven;
         private int failures;
 
@@ -3364,9 +3365,9 @@ public final class ShellPair {
                 store.removes(place);
             } else if (isWord(command, 0, "sum")) {
                 Bytes content = store.contents[place];
-                sha.digest256(key, 0, content.data, content.from, content.size, key);
+                sha.digest256(sum, 0, content.data, content.from, content.size, sum);
                 for (int i = 0; i < 64; i++) {
-                    int digit = key[i >> 1] >> 4 - 4 * (i & 1) & 15;
+                    int digit = sum[i >> 1] >> 4 - 4 * (i & 1) & 15;
                     c.out.put(digit < 10 ? '0' + digit : 'a' + digit - 10);
                 }
                 c.out.put('\n');

@@ -232,6 +232,12 @@ public final class TransportTest {
         r.x.start();
         r.settle();
         Check.due("what had come in part is forgotten", r.x.about(0, 8), 1);
+        for (int i = 0; i < 2; i++) {
+            r.x.start();
+            r.rewire(0, Crypto.join(Rig.latin("1\n2\n3\n4\n5\n6\n7\n8\n"), r.wire(0)));
+            r.x.move(0, 100);
+            Check.due("eight lines are passed over each time", r.state(0), "1/0");
+        }
         r.secret(2, Rig.IDENTITY).secret(4, Crypto.edPublic(Rig.IDENTITY));
         r.x.start();
         r.settle();
