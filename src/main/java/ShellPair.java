@@ -2307,14 +2307,14 @@ public final class ShellPair {
             }
         }
 
+        /** MESSAGE 1 is put by itself, for behind it nothing is sent, no KEXINIT for LIMIT either. */
         private boolean sendsLast(int why) {
             message.clear();
             message.put(1);
             message.putInt(why);
             message.putInt(0);
             message.putInt(0);
-            sends(message);
-            return state == OPEN;
+            return state == OPEN && puts(message);
         }
 
         /** A MESSAGE of CHANNELS has come: the reason to disconnect for, or 0. */

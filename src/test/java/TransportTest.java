@@ -20,6 +20,8 @@ public final class TransportTest {
         rekeys();
         limit();
         limitBehindAnExchange();
+        nothingBehindTheLast();
+        limitAheadOfTheLast();
         waits();
         waitsTooMuch();
         wireIsFull();
@@ -448,6 +450,46 @@ public final class TransportTest {
             Check.due("82 that waited", p.next(), new byte[] {82});
         }
         Check.due("KEXINIT behind them", p.next()[0], 20);
+    }
+
+    /** MESSAGE 1 reaches LIMIT, by quit or by DISCONNECT, and yet no KEXINIT follows it. */
+    private static void nothingBehindTheLast() {
+        for (int quits = 0; quits <= 1; quits++) {
+            Rig r = Rig.ready();
+            r.x.set(1, 4, 256);
+            Peer p = Peer.provenClient(r);
+            for (int i = 0; i < 2; i++) {
+                p.send(Msg.of(80).str("x").u8(1));
+                Check.due("82", p.next(), new byte[] {82});
+            }
+            int sent = r.x.about(1, 2);
+            if (quits == 1) {
+                r.x.quit(1);
+            } else {
+                p.send(Msg.of(81));
+            }
+            Check.due("MESSAGE 1", p.next(), Msg.of(1).u32(quits == 1 ? 11 : 2).str("").str("").bytes());
+            Check.due("and nothing behind it", p.next() == null ? 1 : 0, 1);
+            Check.due("one packet more", r.x.about(1, 2), sent + 1);
+            Check.due("how it ended", r.state(1), quits == 1 ? "3/11" : "2/2");
+        }
+    }
+
+    /** The sixth 51 reaches LIMIT: KEXINIT behind it, and only then the DISCONNECT. */
+    private static void limitAheadOfTheLast() {
+        Rig r = Rig.ready();
+        // 6 and each 51 are 68 bytes.
+        r.x.set(1, 4, 7 * 68);
+        Peer p = Peer.client(r);
+        p.send(Msg.of(5).str("ssh-userauth"));
+        Check.due("6", p.next()[0], 6);
+        for (int i = 1; i <= 6; i++) {
+            p.send(Msg.of(50).str("al").str("ssh-connection").str("another"));
+            Check.due("51 of failure " + i, p.next()[0], 51);
+        }
+        Check.due("KEXINIT behind the sixth", p.next()[0], 20);
+        Check.due("then MESSAGE 1", p.next(), Msg.of(1).u32(14).str("").str("").bytes());
+        Check.due("then nothing", p.next() == null ? 1 : 0, 1);
     }
 
     private static void waits() {
