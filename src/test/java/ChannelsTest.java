@@ -21,6 +21,7 @@ public final class ChannelsTest {
         globalRequests();
         notOpen();
         sendsBeyond();
+        greatestPiece();
         Check.close();
     }
 
@@ -545,5 +546,28 @@ public final class ChannelsTest {
         Check.due("waits", r.tape(new byte[8]).x.write(c, false), 8);
         Check.due("lost", r.state(0), "2/10");
         Check.due("window", r.x.channel(c, 6), 4088);
+    }
+
+    /** A greatest packet above 32,768 is as that. */
+    private static void greatestPiece() {
+        for (long greatest : new long[] {32767, 32768, 32769, 0xffffffffL}) {
+            Rig r = Rig.ready();
+            r.x.set(1, 2, 16384);
+            r.x.set(1, 3, 32768);
+            Peer p = Peer.provenClient(r);
+            p.send(Msg.of(90).str("session").u32(9).u32(0).u32(greatest));
+            p.send(Msg.of(98).u32(0).str("exec").u8(0).str("cat"));
+            for (int i = 0; i < 3; i++) {
+                p.send(Msg.of(94).u32(0).str(new byte[16000]));
+            }
+            for (int number : new int[] {91, 93, 93, 93}) {
+                Check.due("without a window", p.next()[0], number);
+            }
+            p.send(Msg.of(93).u32(0).u32(50000));
+            int piece = (int) Math.min(greatest, 32768);
+            Check.due("piece of " + greatest, p.next().length, 9 + piece);
+            Check.due("the rest", p.next().length, 9 + 48000 - piece);
+            none("no more", p);
+        }
     }
 }

@@ -16,6 +16,7 @@ public final class TransportTest {
         server30();
         client31();
         notDue();
+        unnamed();
         enciphered();
         rekeys();
         limit();
@@ -328,6 +329,29 @@ public final class TransportTest {
         Check.due("3 with the number", p.next(), Msg.of(3).u32(4).bytes());
         p.send(Msg.of(1).u32(12).str("").str(""));
         Check.due("told", r.state(1), "3/12");
+    }
+
+    /** All numbers that the document does not name, at both ENDS, before proof and behind it. */
+    private static void unnamed() {
+        for (int kind = 0; kind < 4; kind++) {
+            Rig r = Rig.ready();
+            Peer p = kind == 0 ? Peer.client(r) : kind == 1 ? Peer.provenClient(r)
+                    : kind == 2 ? Peer.server(r) : Peer.provenServer(r);
+            if (kind == 2) {
+                Check.due("5", p.next()[0], 5);
+            }
+            for (int number = 0; number < 256; number++) {
+                boolean named = number >= 1 && number <= 6 || number == 20 || number == 21 || number == 30 || number == 31
+                        || number >= 50 && number <= 52 || number == 60 || number >= 80 && number <= 82
+                        || number >= 90 && number <= 100;
+                if (!named) {
+                    int taken = p.packetsOut;
+                    p.send(Msg.of(number));
+                    Check.due("unnamed " + number, p.next(), Msg.of(3).u32(taken).bytes());
+                }
+            }
+            Check.due("open all the while", r.state(p.other()), "1/0");
+        }
     }
 
     private static void enciphered() {
