@@ -145,6 +145,16 @@ public final class CommandsTest {
         Check.due("as before", r.x.count(4), 16384);
         Check.due("much too much", put(p, "n5", new byte[40000]), 1);
         Check.due("names then", r.x.about(1, 12), 64);
+        p.send(Msg.of(90).str("session").u32(9).u32(100).u32(100));
+        p.next();
+        p.send(Msg.of(98).u32(0).str("exec").u8(0).str("rm n0"));
+        Check.due("one of 64 goes", r.x.about(1, 12) + "/" + r.x.count(4), "63/1");
+        Check.due("96", p.next(), Msg.of(96).u32(9).bytes());
+        Check.due("98", p.next(), Msg.of(98).u32(9).str("exit-status").u8(0).u32(0).bytes());
+        Check.due("97", p.next(), Msg.of(97).u32(9).bytes());
+        p.send(Msg.of(97).u32(0));
+        Check.due("and another comes", put(p, "more", new byte[16383]), 0);
+        Check.due("64 and all bytes", r.x.about(1, 12) + "/" + r.x.count(4), "64/16384");
     }
 
     /** The status of put; its ERROR text is looked at. */
