@@ -29,48 +29,29 @@ public final class TransportTest {
         Check.close();
     }
 
-    /** The state of END e when these bytes come to it first. */
-    private static String first(int e, byte[] b) {
-        Rig r = Rig.ready();
-        r.x.start();
-        byte[] is = r.wire(e);
-        byte[] want = b.length >= is.length ? b : Arrays.copyOf(b, is.length);
-        r.rewire(e, want);
-        r.x.move(e, b.length);
-        return r.state(e);
-    }
-
-    private static byte[] line(int n, String begin, String end) {
-        StringBuilder s = new StringBuilder(begin);
-        while (s.length() < n - end.length()) {
-            s.append('x');
-        }
-        return Rig.latin(s.append(end).toString());
-    }
-
     private static void lines() {
         for (int e = 0; e < 2; e++) {
-            Check.due("least line", first(e, Rig.latin("SSH-2.0-\n")), "1/0");
-            Check.due("with CR", first(e, Rig.latin("SSH-2.0-a b~\r\n")), "1/0");
-            Check.due("255 bytes", first(e, line(255, "SSH-2.0-", "\r\n")), "1/0");
-            Check.due("256 bytes", first(e, line(256, "SSH-2.0-", "\r\n")), "2/8");
-            Check.due("255 bytes without LF", first(e, line(255, "SSH-2.0-", "")), "1/0");
-            Check.due("256 bytes without LF", first(e, line(256, "other", "")), "2/8");
-            Check.due("another version", first(e, Rig.latin("SSH-1.99-x\r\n")), "2/8");
-            Check.due("too short", first(e, Rig.latin("SSH-2.0\r\n")), "2/8");
-            Check.due("two CR", first(e, Rig.latin("SSH-2.0-x\r\r\n")), "2/8");
-            Check.due("byte 31", first(e, Rig.latin("SSH-2.0-x\u001f\n")), "2/8");
-            Check.due("byte 127", first(e, Rig.latin("SSH-2.0-x\u007f\n")), "2/8");
-            Check.due("byte 200", first(e, Rig.latin("SSH-2.0-x\u00c8\n")), "2/8");
+            Check.due("least line", Plain.first(e, Rig.latin("SSH-2.0-\n")), "1/0");
+            Check.due("with CR", Plain.first(e, Rig.latin("SSH-2.0-a b~\r\n")), "1/0");
+            Check.due("255 bytes", Plain.first(e, Plain.line(255, "SSH-2.0-", "\r\n")), "1/0");
+            Check.due("256 bytes", Plain.first(e, Plain.line(256, "SSH-2.0-", "\r\n")), "2/8");
+            Check.due("255 bytes without LF", Plain.first(e, Plain.line(255, "SSH-2.0-", "")), "1/0");
+            Check.due("256 bytes without LF", Plain.first(e, Plain.line(256, "other", "")), "2/8");
+            Check.due("another version", Plain.first(e, Rig.latin("SSH-1.99-x\r\n")), "2/8");
+            Check.due("too short", Plain.first(e, Rig.latin("SSH-2.0\r\n")), "2/8");
+            Check.due("two CR", Plain.first(e, Rig.latin("SSH-2.0-x\r\r\n")), "2/8");
+            Check.due("byte 31", Plain.first(e, Rig.latin("SSH-2.0-x\u001f\n")), "2/8");
+            Check.due("byte 127", Plain.first(e, Rig.latin("SSH-2.0-x\u007f\n")), "2/8");
+            Check.due("byte 200", Plain.first(e, Rig.latin("SSH-2.0-x\u00c8\n")), "2/8");
         }
-        Check.due("another line at the server", first(1, Rig.latin("hello\n")), "2/8");
-        Check.due("another line at the client", first(0, Rig.latin("hello\n")), "1/0");
-        Check.due("an empty line at the server", first(1, Rig.latin("\n")), "2/8");
+        Check.due("another line at the server", Plain.first(1, Rig.latin("hello\n")), "2/8");
+        Check.due("another line at the client", Plain.first(0, Rig.latin("hello\n")), "1/0");
+        Check.due("an empty line at the server", Plain.first(1, Rig.latin("\n")), "2/8");
     }
 
     private static void linesPassedOver() {
-        Check.due("eight", first(0, Rig.latin("\r\nSSH\n3\n4\n5\n6\n7\n\u00ff\nSSH-2.0-x\n")), "1/0");
-        Check.due("nine", first(0, Rig.latin("1\n2\n3\n4\n5\n6\n7\n8\n9\n")), "2/8");
+        Check.due("eight", Plain.first(0, Rig.latin("\r\nSSH\n3\n4\n5\n6\n7\n\u00ff\nSSH-2.0-x\n")), "1/0");
+        Check.due("nine", Plain.first(0, Rig.latin("1\n2\n3\n4\n5\n6\n7\n8\n9\n")), "2/8");
         Rig r = Rig.ready();
         r.x.start();
         byte[] wire = r.wire(0);
@@ -79,112 +60,71 @@ public final class TransportTest {
         Check.due("and then all goes on", r.x.about(0, 8), 1);
     }
 
-    private static byte[] packet(int padding, byte[] payload) {
-        return new Msg().u32(1 + payload.length + padding).u8(padding).raw(payload).raw(new byte[padding]).bytes();
-    }
-
-    /** The server when these bytes come behind the client's line. */
-    private static Rig behindLine(byte[] b) {
-        Rig r = Rig.ready();
-        r.x.start();
-        byte[] is = r.wire(1);
-        byte[] want = Crypto.join(Arrays.copyOf(is, 18), b);
-        r.rewire(1, want.length < is.length ? Arrays.copyOf(want, is.length) : want);
-        r.x.move(1, want.length);
-        return r;
-    }
-
     private static void lengths() {
-        Check.due("7 bytes of a wrong length", behindLine(Crypto.bytes("00000000000000")).state(1), "1/0");
-        Check.due("length 0", behindLine(Crypto.bytes("0000000000000000")).state(1), "2/2");
-        Check.due("length 4", behindLine(Crypto.bytes("0000000400000000")).state(1), "2/2");
-        Check.due("length 12", behindLine(Crypto.bytes("0000000c00000000")).state(1), "1/0");
-        Check.due("length 13", behindLine(Crypto.bytes("0000000d00000000")).state(1), "2/2");
-        Check.due("length 34996", behindLine(Crypto.bytes("000088b400000000")).state(1), "1/0");
-        Check.due("length 35004", behindLine(Crypto.bytes("000088bc00000000")).state(1), "2/2");
-        Check.due("length below 0", behindLine(Crypto.bytes("ffffff0c00000000")).state(1), "2/2");
-        Check.due("padding 3", behindLine(new Msg().u32(12).u8(3).raw(new byte[11]).bytes()).state(1), "2/2");
-        Check.due("padding 11 of 12", behindLine(new Msg().u32(12).u8(11).raw(new byte[11]).bytes()).state(1), "2/2");
-        Rig r = behindLine(new Msg().u32(12).u8(10).u8(200).raw(new byte[10]).bytes());
+        Check.due("7 bytes of a wrong length", Plain.behindLine(Crypto.bytes("00000000000000")).state(1), "1/0");
+        Check.due("length 0", Plain.behindLine(Crypto.bytes("0000000000000000")).state(1), "2/2");
+        Check.due("length 4", Plain.behindLine(Crypto.bytes("0000000400000000")).state(1), "2/2");
+        Check.due("length 12", Plain.behindLine(Crypto.bytes("0000000c00000000")).state(1), "1/0");
+        Check.due("length 13", Plain.behindLine(Crypto.bytes("0000000d00000000")).state(1), "2/2");
+        Check.due("length 34996", Plain.behindLine(Crypto.bytes("000088b400000000")).state(1), "1/0");
+        Check.due("length 35004", Plain.behindLine(Crypto.bytes("000088bc00000000")).state(1), "2/2");
+        Check.due("length below 0", Plain.behindLine(Crypto.bytes("ffffff0c00000000")).state(1), "2/2");
+        Check.due("padding 3", Plain.behindLine(new Msg().u32(12).u8(3).raw(new byte[11]).bytes()).state(1), "2/2");
+        Check.due("padding 11 of 12", Plain.behindLine(new Msg().u32(12).u8(11).raw(new byte[11]).bytes()).state(1), "2/2");
+        Rig r = Plain.behindLine(new Msg().u32(12).u8(10).u8(200).raw(new byte[10]).bytes());
         Check.due("padding 10 of 12", r.state(1), "1/0");
         Check.due("it is taken", r.x.about(1, 3), 1);
         Check.due("and answered by 3", r.x.about(0, 5), 282 + 16);
         Check.due("with its number", Arrays.copyOfRange(r.wire(0), 282, 292), Crypto.bytes("0000000c060300000000"));
-        Check.due("not taken", behindLine(new Msg().u32(12).u8(3).raw(new byte[11]).bytes()).x.about(1, 3), 0);
-    }
-
-    private static String plain(Msg... all) {
-        byte[] b = new byte[0];
-        for (Msg m : all) {
-            byte[] payload = m.bytes();
-            int padding = 8 - (5 + payload.length) % 8;
-            b = Crypto.join(b, packet(padding < 4 ? padding + 8 : padding, payload));
-        }
-        Rig r = behindLine(b);
-        return r.state(1) + "/" + r.x.about(1, 3);
+        Check.due("not taken", Plain.behindLine(new Msg().u32(12).u8(3).raw(new byte[11]).bytes()).x.about(1, 3), 0);
     }
 
     private static void plainMessages() {
-        Check.due("1", plain(Msg.of(1).u32(77).str("bye").str("en")), "3/77/1");
-        Check.due("1 with more", plain(Msg.of(1).u32(77).str("bye").str("en").u8(1)), "3/77/1");
-        Check.due("1 without language", plain(Msg.of(1).u32(77).str("bye")), "2/2/1");
-        Check.due("2, 3, 4", plain(Msg.of(2).str("x"), Msg.of(3).u32(0), Msg.of(4).u8(1).str("").str("y").u32(5)), "1/0/3");
-        Check.due("2 cut off", plain(Msg.of(2).u32(5)), "2/2/1");
-        Check.due("3 cut off", plain(Msg.of(3).u8(5)), "2/2/1");
-        Check.due("4 cut off", plain(Msg.of(4).u8(5).str("a")), "2/2/1");
-        Check.due("unnamed", plain(Msg.of(200), Msg.of(0), Msg.of(19), Msg.of(53), Msg.of(101)), "1/0/5");
+        Check.due("1", Plain.answered(Msg.of(1).u32(77).str("bye").str("en")), "3/77/1");
+        Check.due("1 with more", Plain.answered(Msg.of(1).u32(77).str("bye").str("en").u8(1)), "3/77/1");
+        Check.due("1 without language", Plain.answered(Msg.of(1).u32(77).str("bye")), "2/2/1");
+        Check.due("2, 3, 4", Plain.answered(Msg.of(2).str("x"), Msg.of(3).u32(0), Msg.of(4).u8(1).str("").str("y").u32(5)), "1/0/3");
+        Check.due("2 cut off", Plain.answered(Msg.of(2).u32(5)), "2/2/1");
+        Check.due("3 cut off", Plain.answered(Msg.of(3).u8(5)), "2/2/1");
+        Check.due("4 cut off", Plain.answered(Msg.of(4).u8(5).str("a")), "2/2/1");
+        Check.due("unnamed", Plain.answered(Msg.of(200), Msg.of(0), Msg.of(19), Msg.of(53), Msg.of(101)), "1/0/5");
         for (int number : new int[] {5, 6, 21, 30, 31, 50, 51, 52, 60, 80, 81, 82, 90, 91, 92, 93, 94, 95, 96, 97, 98, 99, 100}) {
-            Check.due(number + " before 20", plain(Msg.of(number).str("ssh-userauth")), "2/2/1");
+            Check.due(number + " before 20", Plain.answered(Msg.of(number).str("ssh-userauth")), "2/2/1");
         }
     }
-
-    private static Msg init(String keys, String host, String[] six, int follows) {
-        Msg m = Msg.of(20).raw(new byte[16]).str(keys).str(host);
-        for (String s : six) {
-            m.str(s);
-        }
-        return m.str("").str("").u8(follows).u32(0);
-    }
-
-    private static String[] six(String c1, String c2, String m1, String m2, String z1, String z2) {
-        return new String[] {c1, c2, m1, m2, z1, z2};
-    }
-
-    private static final String[] PLAIN = six("aes128-ctr", "aes256-ctr", "hmac-sha2-256",
-            "hmac-sha2-256-etm@openssh.com", "none", "none");
 
     private static void malformed() {
-        Msg good = init("curve25519-sha256", "ssh-ed25519", PLAIN, 0);
-        Check.due("20", plain(good), "1/0/1");
-        Check.due("20 with more", plain(new Msg().raw(good.bytes()).u8(0)), "2/2/1");
-        Check.due("20 cut off", plain(new Msg().raw(Arrays.copyOf(good.bytes(), good.bytes().length - 1))), "2/2/1");
-        Check.due("20 twice", plain(good, good), "2/2/2");
-        Check.due("2 behind 20", plain(good, Msg.of(2).str("")), "1/0/2");
-        Check.due("unnamed behind 20", plain(good, Msg.of(200)), "2/2/2");
-        Check.due("21 with more", plain(good, Msg.of(30).str(Crypto.x25519Public(Rig.HOST)), Msg.of(21).u8(0)), "2/2/3");
-        Check.due("30 with more", plain(good, Msg.of(30).str(new byte[32]).u8(0)), "2/2/2");
+        Msg good = Plain.init("curve25519-sha256", "ssh-ed25519", Plain.LISTS, 0);
+        Check.due("20", Plain.answered(good), "1/0/1");
+        Check.due("20 with more", Plain.answered(new Msg().raw(good.bytes()).u8(0)), "2/2/1");
+        Check.due("20 cut off", Plain.answered(new Msg().raw(Arrays.copyOf(good.bytes(), good.bytes().length - 1))), "2/2/1");
+        Check.due("20 twice", Plain.answered(good, good), "2/2/2");
+        Check.due("2 behind 20", Plain.answered(good, Msg.of(2).str("")), "1/0/2");
+        Check.due("unnamed behind 20", Plain.answered(good, Msg.of(200)), "2/2/2");
+        Check.due("21 with more", Plain.answered(good, Msg.of(30).str(Crypto.x25519Public(Rig.HOST)), Msg.of(21).u8(0)), "2/2/3");
+        Check.due("30 with more", Plain.answered(good, Msg.of(30).str(new byte[32]).u8(0)), "2/2/2");
     }
 
     /** Each direction has its own: the client's first that the server has. */
     private static void choices() {
         Rig r = Rig.ready();
         r.x.start();
-        Msg mine = init("x,curve25519-sha256@libssh.org", ",ssh-rsa,ssh-ed25519,", six("aes256-ctr,aes128-ctr",
+        Msg mine = Plain.init("x,curve25519-sha256@libssh.org", ",ssh-rsa,ssh-ed25519,", Plain.six("aes256-ctr,aes128-ctr",
                 "3des-cbc,aes128-ctr", "hmac-sha2-256", "none,hmac-sha2-256-etm@openssh.com,hmac-sha2-256", "zlib,none",
                 "none,zlib"), 0);
         byte[] payload = mine.bytes();
-        byte[] p = Crypto.join(Arrays.copyOf(r.wire(1), 18), packet(64 + 8 - (5 + payload.length) % 8, payload));
+        byte[] p = Crypto.join(Arrays.copyOf(r.wire(1), 18), Plain.packet(64 + 8 - (5 + payload.length) % 8, payload));
         r.rewire(1, p);
         r.x.move(1, 1000);
         Check.due("something to choose", r.state(1), "1/0");
-        byte[] q = packet(6, Msg.of(30).str(Crypto.x25519Public(Rig.HOST)).bytes());
+        byte[] q = Plain.packet(6, Msg.of(30).str(Crypto.x25519Public(Rig.HOST)).bytes());
         r.tape(q).x.inject(1);
         r.x.move(1, 1000);
         Check.due("cipher", r.x.about(1, 6), 1);
         Check.due("mac", r.x.about(1, 7), 2);
         Check.due("31 and 21 are sent", r.x.about(1, 2), 3);
         Check.due("no exchange is complete", r.x.about(1, 4), 0);
-        r.tape(packet(10, new byte[] {21})).x.inject(1);
+        r.tape(Plain.packet(10, new byte[] {21})).x.inject(1);
         r.x.move(1, 1000);
         Check.due("one exchange is complete", r.x.about(1, 4), 1);
         Check.due("open", r.state(1), "1/0");
@@ -197,8 +137,8 @@ public final class TransportTest {
             for (String other : new String[] {"", "x", "aes128-ct", names[i] + "x", "x" + names[i]}) {
                 String[] n = names.clone();
                 n[i] = other;
-                Msg m = init(n[0], n[1], six(n[2], n[3], n[4], n[5], n[6], n[7]), 0);
-                Check.due("no choice in list " + i, plain(m), "2/3/1");
+                Msg m = Plain.init(n[0], n[1], Plain.six(n[2], n[3], n[4], n[5], n[6], n[7]), 0);
+                Check.due("no choice in list " + i, Plain.answered(m), "2/3/1");
             }
         }
         Rig r = Rig.ready();
@@ -211,21 +151,21 @@ public final class TransportTest {
     }
 
     private static void wrongGuess() {
-        Msg right = init("curve25519-sha256,x", "ssh-ed25519,y", PLAIN, 1);
-        Msg keys = init("curve25519-sha256@libssh.org", "ssh-ed25519", PLAIN, 255);
-        Msg host = init("curve25519-sha256", "ssh-rsa,ssh-ed25519", PLAIN, 1);
-        Msg none = init("curve25519-sha256@libssh.org", "ssh-ed25519", PLAIN, 0);
-        Check.due("right guess", plain(right, Msg.of(31)), "2/2/2");
-        Check.due("no guess", plain(none, Msg.of(31)), "2/2/2");
-        Check.due("wrong keys", plain(keys, Msg.of(31)), "1/0/2");
-        Check.due("wrong host key", plain(host, Msg.of(31)), "1/0/2");
-        Check.due("only the next", plain(host, Msg.of(31), Msg.of(31)), "2/2/3");
+        Msg right = Plain.init("curve25519-sha256,x", "ssh-ed25519,y", Plain.LISTS, 1);
+        Msg keys = Plain.init("curve25519-sha256@libssh.org", "ssh-ed25519", Plain.LISTS, 255);
+        Msg host = Plain.init("curve25519-sha256", "ssh-rsa,ssh-ed25519", Plain.LISTS, 1);
+        Msg none = Plain.init("curve25519-sha256@libssh.org", "ssh-ed25519", Plain.LISTS, 0);
+        Check.due("right guess", Plain.answered(right, Msg.of(31)), "2/2/2");
+        Check.due("no guess", Plain.answered(none, Msg.of(31)), "2/2/2");
+        Check.due("wrong keys", Plain.answered(keys, Msg.of(31)), "1/0/2");
+        Check.due("wrong host key", Plain.answered(host, Msg.of(31)), "1/0/2");
+        Check.due("only the next", Plain.answered(host, Msg.of(31), Msg.of(31)), "2/2/3");
     }
 
     private static void startsAnew() {
-        Msg wrong = init("curve25519-sha256@libssh.org", "ssh-ed25519", PLAIN, 1);
+        Msg wrong = Plain.init("curve25519-sha256@libssh.org", "ssh-ed25519", Plain.LISTS, 1);
         byte[] payload = wrong.bytes();
-        Rig r = behindLine(packet(8 + 8 - (5 + payload.length) % 8, payload));
+        Rig r = Plain.behindLine(Plain.packet(8 + 8 - (5 + payload.length) % 8, payload));
         r.x.start();
         r.settle();
         Check.due("nothing is passed over", r.x.about(0, 8), 1);
@@ -248,20 +188,20 @@ public final class TransportTest {
     }
 
     private static void server30() {
-        Msg good = init("curve25519-sha256", "ssh-ed25519", PLAIN, 0);
-        Check.due("30 of 31 bytes", plain(good, Msg.of(30).str(new byte[31])), "2/3/2");
-        Check.due("30 of 33 bytes", plain(good, Msg.of(30).str(new byte[33])), "2/3/2");
-        Check.due("a shared secret of 0", plain(good, Msg.of(30).str(new byte[32])), "2/3/2");
+        Msg good = Plain.init("curve25519-sha256", "ssh-ed25519", Plain.LISTS, 0);
+        Check.due("30 of 31 bytes", Plain.answered(good, Msg.of(30).str(new byte[31])), "2/3/2");
+        Check.due("30 of 33 bytes", Plain.answered(good, Msg.of(30).str(new byte[33])), "2/3/2");
+        Check.due("a shared secret of 0", Plain.answered(good, Msg.of(30).str(new byte[32])), "2/3/2");
         byte[] one = new byte[32];
         one[0] = 1;
-        Check.due("another of 0", plain(good, Msg.of(30).str(one)), "2/3/2");
+        Check.due("another of 0", Plain.answered(good, Msg.of(30).str(one)), "2/3/2");
         byte[] point = Crypto.x25519Public(Rig.HOST);
-        Check.due("30", plain(good, Msg.of(30).str(point)), "1/0/2");
-        Check.due("30 twice", plain(good, Msg.of(30).str(point), Msg.of(30).str(point)), "2/2/3");
-        Check.due("21 before 30", plain(good, Msg.of(21)), "2/2/2");
-        Check.due("31 at the server", plain(good, Msg.of(31).str("").str("").str("")), "2/2/2");
+        Check.due("30", Plain.answered(good, Msg.of(30).str(point)), "1/0/2");
+        Check.due("30 twice", Plain.answered(good, Msg.of(30).str(point), Msg.of(30).str(point)), "2/2/3");
+        Check.due("21 before 30", Plain.answered(good, Msg.of(21)), "2/2/2");
+        Check.due("31 at the server", Plain.answered(good, Msg.of(31).str("").str("").str("")), "2/2/2");
         point[31] ^= (byte) 128;
-        Check.due("the highest bit does not count", plain(good, Msg.of(30).str(point)), "1/0/2");
+        Check.due("the highest bit does not count", Plain.answered(good, Msg.of(30).str(point)), "1/0/2");
     }
 
     /** The client's state, and whether it knows a session's id, behind a 31 with this of it changed. */
@@ -422,8 +362,7 @@ public final class TransportTest {
         Peer p = Peer.client(s);
         s.x.rekey(1);
         p.theirInit = p.next();
-        p.ownInit = init("curve25519-sha256", "ssh-ed25519", six("aes128-ctr", "aes128-ctr", PLAIN[3], PLAIN[3], "none", "none"), 0)
-                .bytes();
+        p.ownInit = Plain.rekeys().bytes();
         p.send(new Msg().raw(p.ownInit));
         p.exchangesAsClient();
         Check.due("against the library", s.x.about(1, 4), 2);
@@ -466,8 +405,7 @@ public final class TransportTest {
             p.send(Msg.of(80).str("x").u8(1));
         }
         r.x.set(1, 4, 256);
-        p.ownInit = init("curve25519-sha256", "ssh-ed25519", six("aes128-ctr", "aes128-ctr", PLAIN[3], PLAIN[3], "none", "none"), 0)
-                .bytes();
+        p.ownInit = Plain.rekeys().bytes();
         p.send(new Msg().raw(p.ownInit));
         p.exchangesAsClient();
         for (int i = 0; i < 6; i++) {
@@ -528,8 +466,7 @@ public final class TransportTest {
         Check.due("the channel is there", r.x.about(1, 9), 1);
         p.send(Msg.of(99 + 78));
         Check.due("3 does not wait", Arrays.copyOf(p.next(), 1), new byte[] {3});
-        p.ownInit = init("curve25519-sha256", "ssh-ed25519", six("aes128-ctr", "aes128-ctr", PLAIN[3], PLAIN[3], "none", "none"), 0)
-                .bytes();
+        p.ownInit = Plain.rekeys().bytes();
         p.send(new Msg().raw(p.ownInit));
         p.exchangesAsClient();
         Check.due("82 behind 21", p.next(), new byte[] {82});

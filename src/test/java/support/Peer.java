@@ -83,7 +83,7 @@ final class Peer {
         int length = (int) Msg.from(head).takeInt();
         int end = at + 4 + length;
         byte[] rest = Arrays.copyOfRange(wire, at + head.length, end);
-        byte[] plain = Crypto.join(head, opener == null ? rest : opener.update(rest));
+        byte[] plain = Crypto.join(head, opener == null || rest.length == 0 ? rest : opener.update(rest));
         if (opener != null) {
             byte[] tagged = mac == 2 ? Arrays.copyOfRange(wire, at, end) : plain;
             byte[] tag = Crypto.hmac(macIn, new Msg().u32(packetsIn).bytes(), tagged);
@@ -111,7 +111,12 @@ final class Peer {
     }
 
     byte[] sealed(byte[] payload, int padding) {
-        byte[] plain = new Msg().u32(1 + payload.length + padding).u8(padding).raw(payload).raw(new byte[padding]).bytes();
+        return sealedPlain(
+                new Msg().u32(1 + payload.length + padding).u8(padding).raw(payload).raw(new byte[padding]).bytes());
+    }
+
+    /** A packet of these bytes, length and all, whether they fit or not. */
+    byte[] sealedPlain(byte[] plain) {
         byte[] number = new Msg().u32(packetsOut).bytes();
         packetsOut++;
         if (sealer == null) {
@@ -126,9 +131,24 @@ final class Peer {
 
     /** Sends and moves one MESSAGE. */
     Peer send(Msg m) {
-        rig.tape(sealed(m.bytes())).x.inject(other());
+        return sendBytes(sealed(m.bytes()));
+    }
+
+    /** Sends and moves these bytes as they are. */
+    Peer sendBytes(byte[] b) {
+        rig.tape(b).x.inject(other());
         moves();
         return this;
+    }
+
+    /** The other END has no more to say. */
+    void saysNothing(String what) {
+        byte[] b = next();
+        Check.due(what, b == null ? "nothing" : Check.hex(b), "nothing");
+    }
+
+    String state() {
+        return rig.state(other());
     }
 
     /** The client's part of an exchange: all till both have new keys. */
@@ -197,6 +217,16 @@ final class Peer {
     /** string ssh-ed25519, string of what is given: a public key or a signature. */
     static byte[] blob(byte[] b) {
         return new Msg().str("ssh-ed25519").str(b).bytes();
+    }
+
+    /** An exchange of keys with the other END, with this MAC in both directions. */
+    static Peer with(int plays, int mac) {
+        Rig r = Rig.ready();
+        r.x.set(1 - plays, 1, mac);
+        Peer p = new Peer(r, plays);
+        p.mac = mac;
+        p.begins();
+        return plays == 0 ? p.exchangesAsClient() : p.exchangesAsServer();
     }
 
     /** A server's ShellPair with this client, with keys. */

@@ -92,6 +92,14 @@ final class Rig {
         }
     }
 
+    /** The wire to END e gets bytes of 0 till there is only so much room on it. */
+    Rig fill(int e, int room) {
+        for (int left = 131072 - room - x.about(e, 5); left > 0; left = 131072 - room - x.about(e, 5)) {
+            tape(new byte[Math.min(left, 65000)]).x.inject(e);
+        }
+        return this;
+    }
+
     byte[] read(int channel, int kind) {
         Msg m = new Msg();
         for (int i = 0; i < 100000; i++) {
