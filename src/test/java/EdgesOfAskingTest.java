@@ -31,6 +31,7 @@ public final class EdgesOfAskingTest {
         noneLeft();
         keysChangedInBetween();
         asksInEveryConnection();
+        nothingIsDueFromBefore();
         Check.close();
     }
 
@@ -410,5 +411,18 @@ public final class EdgesOfAskingTest {
             Check.due("proven", r.x.about(0, 8) + r.x.about(1, 8), 2);
             Check.due("none, publickey, its proof", r.x.about(0, 10), 3);
         }
+    }
+
+    /** A 50 that was not answered, and a 60 that was due, are of no matter in the next connection. */
+    private static void nothingIsDueFromBefore() {
+        for (int number : new int[] {51, 52, 60}) {
+            Peer p = asked().send(list("publickey"));
+            Peer q = new Peer(p.rig, 1).begins().exchangesAsServer();
+            Check.due("no 50 yet", q.rig.x.about(0, 10), 0);
+            Msg m = number == 51 ? list("password") : number == 52 ? Msg.of(52) : Msg.of(60).str("ssh-ed25519").str(BLOB);
+            Check.due(number + " behind start", q.send(m).state(), "2/2");
+        }
+        Peer p = Peer.client(asking().rig);
+        Check.due("nor the 6 that was sent", p.send(password("al", "pw")).state(), "2/2");
     }
 }

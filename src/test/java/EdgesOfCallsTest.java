@@ -21,6 +21,7 @@ public final class EdgesOfCallsTest {
         keysOfEachAccount();
         settingsOfEachEnd();
         everyPort();
+        portsSideBySide();
         movesAsManyAsThereAre();
         flipsTheLow8Bits();
         injectsToTheBrim();
@@ -259,6 +260,22 @@ public final class EdgesOfCallsTest {
         Check.due("none", x.count(2), 0);
         Check.throwing("port 0", NO_SUCH, () -> x.port(0, false));
         Check.throwing("port 65,536", NO_SUCH, () -> x.port(65536, true));
+    }
+
+    /** Each port is open or not for itself. */
+    private static void portsSideBySide() {
+        for (int port : new int[] {1, 31, 32, 33, 63, 64, 65, 1024, 32767, 32768, 65504, 65534}) {
+            Rig r = Rig.proven();
+            r.x.port(port, true);
+            r.x.port(port + 1, true);
+            r.x.port(port, false);
+            r.x.port(port, false);
+            Check.due("only " + (port + 1), r.x.count(2), 1);
+            int c = r.tape("h").x.open(port);
+            int d = r.tape("h").x.open(port + 1);
+            r.settle();
+            Check.due("which is open", r.x.channel(c, 1) + "/" + r.x.channel(d, 1), "2/0");
+        }
     }
 
     /** Promise 10: n bytes, or as many as there are. */

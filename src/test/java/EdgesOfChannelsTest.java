@@ -42,6 +42,9 @@ public final class EdgesOfChannelsTest {
         statusOf4Bytes();
         globalRequests();
         toldTillUsedAgain();
+        nothingOfAnOldChannel();
+        nothingOfAnOldConnection();
+        lookedAtOnceAReading();
         Check.close();
     }
 
@@ -778,5 +781,84 @@ public final class EdgesOfChannelsTest {
         Check.throwing("what -1", ARGUMENT, () -> r.x.channel(c, -1));
         r.x.start();
         Check.throwing("of another connection", NO_SUCH, () -> r.x.channel(c, 0));
+    }
+
+    /** A channel that uses a number again has nothing of the one before. */
+    private static void nothingOfAnOldChannel() {
+        Peer p = server(100, 100, 2, 100);
+        for (int i = 0; i < 3; i++) {
+            p.rig.exec(0, "cat");
+        }
+        p.send(to(99)).send(to(100));
+        p.send(to(94).str("left")).send(to(95).u32(1).str("over"));
+        p.send(to(98).str("exit-status").u8(0).u32(7)).send(to(96)).send(to(97));
+        Check.due("what was not read is there", p.rig.x.channel(0, 3) + "/" + p.rig.x.channel(0, 4), "4/4");
+        p.rig.x.open(0);
+        int[] due = {0, 0, -1, 0, 0, 0, 0, 100, 0, 0, 0};
+        for (int what = 0; what <= 10; what++) {
+            Check.due("channel " + what + " anew", p.rig.x.channel(0, what), due[what]);
+        }
+        Check.due("nothing can be read", p.rig.x.read(0, 0, 7) + p.rig.x.read(0, 1, 7), 0);
+        p.send(opened(0, 4, 1, 1));
+        Check.due("the request of before waits for nothing", p.send(to(99)).state(), "2/2");
+    }
+
+    /** start: all channels are gone, with what they had, at both ENDS. */
+    private static void nothingOfAnOldConnection() {
+        Rig r = Rig.ready();
+        r.x.port(7, true);
+        r.x.set(1, 2, 3);
+        r.x.set(0, 2, 3);
+        r.x.start();
+        r.settle();
+        r.x.open(0);
+        r.tape("h").x.open(7);
+        r.settle();
+        r.write(0, false, "client's");
+        r.exec(0, "echo of the server's");
+        r.exec(0, "never answered");
+        r.write(1, false, "to FAR");
+        r.write(7, true, "from FAR");
+        r.x.move(1, 100000);
+        r.x.start();
+        r.settle();
+        Check.due("a session", r.x.open(0), 0);
+        Check.due("a connection", r.tape("h").x.open(7), 1);
+        Check.due("nothing waits", r.x.channel(0, 5) + r.x.channel(1, 5), 0);
+        r.settle();
+        Check.due("nothing came", r.x.channel(0, 3) + r.x.channel(1, 3) + r.x.read(7, 2, 7), 0);
+        Check.due("nothing was used", r.x.channel(0, 6) + "/" + r.x.channel(0, 7) + "/" + r.x.channel(1, 6), "3/3/3");
+        Check.due("nothing waits at FAR", r.tape("").x.write(7, true), 0);
+        Check.due("nothing was answered", r.x.channel(0, 9) + r.x.channel(0, 10), 0);
+        r.exec(0, "exit 5");
+        r.settle();
+        Check.due("a command as the first", r.x.channel(0, 2) + "/" + r.x.channel(0, 9), "5/1");
+    }
+
+    /** The window is looked at when something was read, and not again when WINDOW is set and something else comes. */
+    private static void lookedAtOnceAReading() {
+        for (String command : new String[] {"", "cat", "put f", "echo x"}) {
+            Peer p = client(100, 100, 0, 100);
+            if (!command.isEmpty()) {
+                p.send(to(98).str("exec").u8(0).str(command));
+                p.send(to(94).str(new byte[10]));
+            }
+            p.send(to(95).u32(1).str(new byte[10]));
+            p.saysNothing("more than half is left, " + command);
+            p.rig.x.set(1, 2, 1000);
+            p.send(Msg.of(2).str("")).send(to(93).u32(0)).send(to(98).str("x").u8(0));
+            p.saysNothing("nothing was read since, " + command);
+            p.send(to(95).u32(1).str(""));
+            p.saysNothing("nor is nothing, " + command);
+            p.send(to(95).u32(1).str("x"));
+            Check.due("a byte is, " + command, p.next()[0], 93);
+        }
+        Peer q = server(100, 100, 100, 100);
+        q.send(to(95).u32(2).str(new byte[10]));
+        q.rig.x.set(0, 2, 1000);
+        q.send(Msg.of(2).str("")).send(to(93).u32(0));
+        q.rig.write(0, false, "x");
+        Check.due("94", q.next()[0], 94);
+        q.saysNothing("nothing was read since at the client");
     }
 }

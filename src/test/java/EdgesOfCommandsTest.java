@@ -21,6 +21,7 @@ public final class EdgesOfCommandsTest {
         allBytesOfTheStore();
         inPlaceOfWhatWasThere();
         fullLeavesTheStore();
+        fullIsToldOnce();
         sizesInDecimals();
         sumsOfAllSizes();
         namesInOrder();
@@ -202,6 +203,26 @@ public final class EdgesOfCommandsTest {
         r.settle();
         Check.due("what it had", r.run("size f", ""), "0|10\n|");
         Check.due("no name more", r.run("ls", ""), "0|f\n|");
+    }
+
+    /** It is told once, however long the client lets it wait. */
+    private static void fullIsToldOnce() {
+        Peer p = Peer.provenClient(Rig.ready());
+        run(p, "put f", new byte[16384]);
+        p.send(Msg.of(90).str("session").u32(9).u32(0).u32(100));
+        p.next();
+        p.send(Msg.of(98).u32(0).str("exec").u8(0).str("put g"));
+        p.send(Msg.of(94).u32(0).str("x"));
+        p.send(Msg.of(96).u32(0));
+        p.send(Msg.of(2).str("")).send(Msg.of(93).u32(0).u32(2)).send(Msg.of(96).u32(0));
+        Check.due("as much as the window allows", p.next(), Msg.of(95).u32(9).u32(1).str("fu").bytes());
+        p.saysNothing("the rest waits");
+        p.send(Msg.of(93).u32(0).u32(100));
+        Check.due("the rest", p.next(), Msg.of(95).u32(9).u32(1).str("ll\n").bytes());
+        Check.due("96", p.next(), Msg.of(96).u32(9).bytes());
+        Check.due("98", p.next(), Msg.of(98).u32(9).str("exit-status").u8(0).u32(1).bytes());
+        Check.due("97", p.next(), Msg.of(97).u32(9).bytes());
+        p.saysNothing("once");
     }
 
     private static void sizesInDecimals() {

@@ -19,6 +19,9 @@ final class Peer {
     byte[] shared;
     int cipher = 1;
     int mac = 2;
+    /** What the other END sends with; 0: the same as this one. */
+    int theirCipher;
+    int theirMac;
     int packetsIn;
     int packetsOut;
     private int at;
@@ -26,6 +29,7 @@ final class Peer {
     private Cipher sealer;
     private byte[] macIn;
     private byte[] macOut;
+    private int[] nextKinds;
 
     Peer(Rig rig, int plays) {
         this.rig = rig;
@@ -76,8 +80,9 @@ final class Peer {
         if (at >= wire.length) {
             return null;
         }
-        byte[] head = Arrays.copyOfRange(wire, at, at + (opener == null ? 8 : mac == 2 ? 4 : 16));
-        if (opener != null && mac == 1) {
+        int in = theirMac == 0 ? mac : theirMac;
+        byte[] head = Arrays.copyOfRange(wire, at, at + (opener == null ? 8 : in == 2 ? 4 : 16));
+        if (opener != null && in == 1) {
             head = opener.update(head);
         }
         int length = (int) Msg.from(head).takeInt();
@@ -85,20 +90,20 @@ final class Peer {
         byte[] rest = Arrays.copyOfRange(wire, at + head.length, end);
         byte[] plain = Crypto.join(head, opener == null || rest.length == 0 ? rest : opener.update(rest));
         if (opener != null) {
-            byte[] tagged = mac == 2 ? Arrays.copyOfRange(wire, at, end) : plain;
+            byte[] tagged = in == 2 ? Arrays.copyOfRange(wire, at, end) : plain;
             byte[] tag = Crypto.hmac(macIn, new Msg().u32(packetsIn).bytes(), tagged);
             Check.due("MAC of packet " + packetsIn, Arrays.copyOfRange(wire, end, end + 32), tag);
             end += 32;
         }
-        checkPadding(plain);
+        checkPadding(plain, in);
         at = end;
         packetsIn++;
         return Arrays.copyOfRange(plain, 5, plain.length - plain[4]);
     }
 
-    private void checkPadding(byte[] plain) {
+    private void checkPadding(byte[] plain, int in) {
         int block = opener == null ? 8 : 16;
-        int counted = opener != null && mac == 2 ? plain.length - 4 : plain.length;
+        int counted = opener != null && in == 2 ? plain.length - 4 : plain.length;
         Check.holds("padding is the least", plain[4] >= 4 && plain[4] < 4 + block && counted % block == 0);
     }
 
@@ -204,12 +209,26 @@ final class Peer {
         return Crypto.sha256(Crypto.mpint(shared), hash, new byte[] {(byte) letter}, session);
     }
 
+    /** From the next 21 of each direction on these ciphers and MACS count. */
+    void nextKinds(int cipher, int mac, int theirCipher, int theirMac) {
+        nextKinds = new int[] {cipher, mac, theirCipher, theirMac};
+    }
+
     private void opens(char iv, char key, char tag) {
-        opener = Crypto.counterMode(Arrays.copyOf(key(key), cipher == 1 ? 16 : 32), Arrays.copyOf(key(iv), 16));
+        if (nextKinds != null) {
+            theirCipher = nextKinds[2];
+            theirMac = nextKinds[3];
+        }
+        int in = theirCipher == 0 ? cipher : theirCipher;
+        opener = Crypto.counterMode(Arrays.copyOf(key(key), in == 1 ? 16 : 32), Arrays.copyOf(key(iv), 16));
         macIn = key(tag);
     }
 
     private void seals(char iv, char key, char tag) {
+        if (nextKinds != null) {
+            cipher = nextKinds[0];
+            mac = nextKinds[1];
+        }
         sealer = Crypto.counterMode(Arrays.copyOf(key(key), cipher == 1 ? 16 : 32), Arrays.copyOf(key(iv), 16));
         macOut = key(tag);
     }
