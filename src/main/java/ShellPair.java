@@ -737,6 +737,7 @@ public final class ShellPair {
                 out[i] = (byte) (sums[i >> 2] >>> 24 - 8 * (i & 3));
             }
         }
+
         void digest512(byte[] head, int headSize, byte[] text, int from, int n, byte[] out) {
             if (headSize < 0 || headSize > head.length || from < 0 || n < 0 || n > text.length - from
                     || out.length < 64) {

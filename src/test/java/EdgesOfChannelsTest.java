@@ -82,6 +82,17 @@ public final class EdgesOfChannelsTest {
         return p;
     }
 
+    /** A server with this WINDOW and a connection at port 7, whose number at the client is 9. */
+    private static Peer far(int ofWindow) {
+        Rig r = Rig.ready();
+        r.x.port(7, true);
+        r.x.set(1, 2, ofWindow);
+        Peer p = Peer.provenClient(r);
+        p.send(Msg.of(90).str("direct-tcpip").u32(9).u32(1).u32(1).str("h").u32(7).str("o").u32(9));
+        Check.due("91", p.next(), opened(9, 0, ofWindow, 1024).bytes());
+        return p;
+    }
+
     private static Peer server() {
         return server(4096, 1024, 100, 100);
     }
@@ -353,15 +364,10 @@ public final class EdgesOfChannelsTest {
             Check.due("93 of the server", q.next(), Msg.of(93).u32(9).u32(11).bytes());
             Check.due("none of it is input", q.send(to(98).str("exec").u8(0).str("cat")).next() == null ? 1 : 0, 1);
         }
-        Rig r = Rig.ready();
-        r.x.port(7, true);
-        r.x.set(1, 2, 20);
-        Peer p = Peer.provenClient(r);
-        p.send(Msg.of(90).str("direct-tcpip").u32(9).u32(1).u32(1).str("h").u32(7).str("o").u32(9));
-        p.next();
+        Peer p = far(20);
         p.send(to(95).u32(1).str(new byte[11]));
         Check.due("at FAR, too", p.next(), Msg.of(93).u32(9).u32(11).bytes());
-        Check.due("nothing comes to it", r.x.read(7, 2, 7), 0);
+        Check.due("nothing comes to it", p.rig.x.read(7, 2, 7), 0);
     }
 
     /** The window left is below WINDOW / 2, cut off. */
@@ -421,12 +427,8 @@ public final class EdgesOfChannelsTest {
         p.saysNothing("there is no ERROR text to read");
         p.rig.x.read(0, 0, 1);
         Check.due("a byte is", p.next(), Msg.of(93).u32(9).u32(80).bytes());
-        Rig r = Rig.ready();
-        r.x.port(7, true);
-        r.x.set(1, 2, 100);
-        Peer q = Peer.provenClient(r);
-        q.send(Msg.of(90).str("direct-tcpip").u32(9).u32(1).u32(1).str("h").u32(7).str("o").u32(9));
-        q.next();
+        Peer q = far(100);
+        Rig r = q.rig;
         r.x.set(1, 2, 1000);
         r.x.read(7, 2, 7);
         q.saysNothing("nothing is there to read at FAR");
@@ -453,12 +455,8 @@ public final class EdgesOfChannelsTest {
             p.saysNothing("no 93, how " + how);
             Check.due("granted", p.rig.x.channel(0, 7), 10);
         }
-        Rig r = Rig.ready();
-        r.x.port(7, true);
-        r.x.set(1, 2, 100);
-        Peer q = Peer.provenClient(r);
-        q.send(Msg.of(90).str("direct-tcpip").u32(9).u32(1).u32(1).str("h").u32(7).str("o").u32(9));
-        q.next();
+        Peer q = far(100);
+        Rig r = q.rig;
         q.send(to(94).str(new byte[90]));
         q.send(to(96));
         Check.due("at FAR", r.read(7, 2).length, 90);

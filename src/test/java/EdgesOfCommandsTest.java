@@ -50,6 +50,16 @@ public final class EdgesOfCommandsTest {
         Check.due("no word behind", r.run("echo", ""), "0|\n|");
         Check.due("blanks behind", r.run("echo    ", ""), "0|\n|");
         Check.due("only 32 is one", r.run("echo\ta", "") + r.run("echo a\tb\u00a0c\nd", ""), UNKNOWN + "0|a\tb\u00a0c\nd\n|");
+        r.run("put f", "12");
+        String[][] all = {{"cat", "0|in|"}, {"ls", "0|f\n|"}, {"get f", "0|12|"}, {"size f", "0|2\n|"}, {"exit 7", "7||"},
+            {"put f", FINE}, {"rm f", FINE}, {"get f f", USAGE}, {"get", USAGE}, {"nope", UNKNOWN}};
+        for (String[] a : all) {
+            for (String form : new String[] {"%s", " %s", "%s ", " %s ", "   %s", "%s   "}) {
+                r.run("put f", "12");
+                String command = String.format(form, a[0].replace(" ", form.length() > 4 ? "   " : " "));
+                Check.due("\"" + command + "\"", r.run(command, "in"), a[1]);
+            }
+        }
         Check.due("a command of 1,000 bytes", r.run("echo " + "x".repeat(995), ""), "0|" + "x".repeat(995) + "\n|");
     }
 

@@ -6,8 +6,6 @@ public final class EdgesOfKeysTest {
     private static final String[] CIPHERS = {"aes128-ctr", "aes256-ctr"};
     private static final String[] MACS = {"hmac-sha2-256", "hmac-sha2-256-etm@openssh.com"};
     private static final BigInteger P = BigInteger.ONE.shiftLeft(255).subtract(BigInteger.valueOf(19));
-    private static final BigInteger ORDER = BigInteger.ONE.shiftLeft(252)
-            .add(new BigInteger("27742317777372353535851937790883648493"));
 
     public static void main(String[] args) {
         listsByDigits();
@@ -285,15 +283,6 @@ public final class EdgesOfKeysTest {
         }
     }
 
-    private static byte[] little(BigInteger v) {
-        byte[] b = new byte[32];
-        byte[] big = v.toByteArray();
-        for (int i = 0; i < 32 && i < big.length; i++) {
-            b[i] = big[big.length - 1 - i];
-        }
-        return b;
-    }
-
     /** The points of a low order, and what is the same modulo 2^255 - 19: a shared secret of 0, DISCONNECT 3. */
     private static void sharedSecretsOf0() {
         BigInteger[] low = {
@@ -303,14 +292,14 @@ public final class EdgesOfKeysTest {
         };
         for (BigInteger v : low) {
             for (int high = 0; high <= 128; high += 128) {
-                byte[] point = little(v);
+                byte[] point = Crypto.little(v);
                 point[31] |= (byte) high;
                 Check.due("30 with " + v, Plain.sent(1, Plain.init(), Msg.of(30).str(point)).state(1), "2/3");
                 Check.due("31 with " + v, reply(Peer.blob(Crypto.edPublic(Rig.HOST)), point, 64), "2/3");
             }
         }
         for (BigInteger v : new BigInteger[] {BigInteger.TWO, P.subtract(BigInteger.TWO), P.add(BigInteger.TWO)}) {
-            Check.due("30 with " + v, Plain.sent(1, Plain.init(), Msg.of(30).str(little(v))).state(1), "1/0");
+            Check.due("30 with " + v, Plain.sent(1, Plain.init(), Msg.of(30).str(Crypto.little(v))).state(1), "1/0");
         }
     }
 
@@ -348,7 +337,7 @@ public final class EdgesOfKeysTest {
                 s[i] = s[31 - i];
                 s[31 - i] = b;
             }
-            byte[] more = little(new BigInteger(1, s).add(ORDER.multiply(BigInteger.valueOf(times))));
+            byte[] more = Crypto.little(new BigInteger(1, s).add(Crypto.ORDER.multiply(BigInteger.valueOf(times))));
             System.arraycopy(more, 0, signed, 32, 32);
             p.send(Msg.of(31).str(Peer.blob(Crypto.edPublic(Rig.HOST))).str(Crypto.x25519Public(p.secret)).str(Peer.blob(signed)));
             Check.due("S and " + times + " times the order", p.state(), times == 0 ? "1/0" : "2/3");

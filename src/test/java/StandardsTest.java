@@ -5,9 +5,6 @@ import java.util.Arrays;
 
 /** Keys, packets and proofs as STANDARDS have them, against an END built on the Java library. */
 public final class StandardsTest {
-    private static final BigInteger ORDER = BigInteger.ONE.shiftLeft(252)
-            .add(new BigInteger("27742317777372353535851937790883648493"));
-
     public static void main(String[] args) throws ReflectiveOperationException {
         eachCipherAndMac();
         anotherInEachDirection();
@@ -169,15 +166,6 @@ public final class StandardsTest {
         }
     }
 
-    private static byte[] little(BigInteger v) {
-        byte[] b = new byte[32];
-        byte[] big = v.toByteArray();
-        for (int i = 0; i < 32 && i < big.length; i++) {
-            b[i] = big[big.length - 1 - i];
-        }
-        return b;
-    }
-
     /** The reason of a client that knows another host key: 9 if the signature is right with this key, 3 if it is not. */
     private static int reason(byte[] key, byte[] first, byte[] second) {
         Peer p = new Peer(Rig.ready(), 1).begins();
@@ -188,33 +176,33 @@ public final class StandardsTest {
 
     /** RFC 8032: S is 0 .. the order less 1. With the neutral point as key R is S times the base, whatever is signed. */
     private static void signaturesAtTheOrder() {
-        byte[] neutral = little(BigInteger.ONE);
+        byte[] neutral = Crypto.little(BigInteger.ONE);
         byte[] base = Crypto.bytes("58" + "66".repeat(31));
         byte[] minus = base.clone();
         minus[31] |= (byte) 128;
-        BigInteger[] all = {BigInteger.ZERO, ORDER, ORDER.add(ORDER), BigInteger.ONE.shiftLeft(255)};
+        BigInteger[] all = {BigInteger.ZERO, Crypto.ORDER, Crypto.ORDER.add(Crypto.ORDER), BigInteger.ONE.shiftLeft(255)};
         for (BigInteger s : all) {
-            Check.due("S " + s, reason(neutral, neutral, little(s)), s.signum() == 0 ? 9 : 3);
+            Check.due("S " + s, reason(neutral, neutral, Crypto.little(s)), s.signum() == 0 ? 9 : 3);
         }
-        Check.due("S 1", reason(neutral, base, little(BigInteger.ONE)), 9);
-        Check.due("S 1, another R", reason(neutral, minus, little(BigInteger.ONE)), 3);
-        Check.due("the order and 1", reason(neutral, base, little(ORDER.add(BigInteger.ONE))), 3);
-        Check.due("the order less 1", reason(neutral, minus, little(ORDER.subtract(BigInteger.ONE))), 9);
-        Check.due("the most", reason(neutral, minus, little(BigInteger.ONE.shiftLeft(256).subtract(BigInteger.ONE))), 3);
+        Check.due("S 1", reason(neutral, base, Crypto.little(BigInteger.ONE)), 9);
+        Check.due("S 1, another R", reason(neutral, minus, Crypto.little(BigInteger.ONE)), 3);
+        Check.due("the order and 1", reason(neutral, base, Crypto.little(Crypto.ORDER.add(BigInteger.ONE))), 3);
+        Check.due("the order less 1", reason(neutral, minus, Crypto.little(Crypto.ORDER.subtract(BigInteger.ONE))), 9);
+        Check.due("the most", reason(neutral, minus, Crypto.little(BigInteger.ONE.shiftLeft(256).subtract(BigInteger.ONE))), 3);
     }
 
     /** RFC 8032 5.1.3: y is below 2^255 - 19, it is a point's, and x of 0 has no sign. */
     private static void keysThatAreNoPoints() {
         BigInteger p = BigInteger.ONE.shiftLeft(255).subtract(BigInteger.valueOf(19));
-        byte[] neutral = little(BigInteger.ONE);
+        byte[] neutral = Crypto.little(BigInteger.ONE);
         byte[] zero = new byte[32];
         Check.due("y 1", reason(neutral, neutral, zero), 9);
-        Check.due("y 1 and 2^255 - 19", reason(little(p.add(BigInteger.ONE)), neutral, zero), 3);
-        Check.due("y 1 with a sign", reason(little(BigInteger.ONE.setBit(255)), neutral, zero), 3);
-        Check.due("R 1 with a sign", reason(neutral, little(BigInteger.ONE.setBit(255)), zero), 3);
-        Check.due("R 1 and 2^255 - 19", reason(neutral, little(p.add(BigInteger.ONE)), zero), 3);
+        Check.due("y 1 and 2^255 - 19", reason(Crypto.little(p.add(BigInteger.ONE)), neutral, zero), 3);
+        Check.due("y 1 with a sign", reason(Crypto.little(BigInteger.ONE.setBit(255)), neutral, zero), 3);
+        Check.due("R 1 with a sign", reason(neutral, Crypto.little(BigInteger.ONE.setBit(255)), zero), 3);
+        Check.due("R 1 and 2^255 - 19", reason(neutral, Crypto.little(p.add(BigInteger.ONE)), zero), 3);
         for (int y : new int[] {2, 7, 8}) {
-            Check.due("no point has y " + y, reason(little(BigInteger.valueOf(y)), neutral, zero), 3);
+            Check.due("no point has y " + y, reason(Crypto.little(BigInteger.valueOf(y)), neutral, zero), 3);
         }
     }
 

@@ -19,6 +19,10 @@ import javax.crypto.spec.SecretKeySpec;
 
 /** The STANDARDS as the Java library has them: what ShellPair must equal bit for bit. */
 final class Crypto {
+    /** The order of the group of Ed25519. */
+    static final BigInteger ORDER = BigInteger.ONE.shiftLeft(252)
+            .add(new BigInteger("27742317777372353535851937790883648493"));
+
     private Crypto() {
     }
 
@@ -139,5 +143,15 @@ final class Crypto {
     static byte[] mpint(byte[] number) {
         byte[] b = new BigInteger(1, number).toByteArray();
         return new Msg().str(b.length == 1 && b[0] == 0 ? new byte[0] : b).bytes();
+    }
+
+    /** 32 bytes, the lowest first. */
+    static byte[] little(BigInteger v) {
+        byte[] b = new byte[32];
+        byte[] big = v.toByteArray();
+        for (int i = 0; i < 32 && i < big.length; i++) {
+            b[i] = big[big.length - 1 - i];
+        }
+        return b;
     }
 }
