@@ -617,7 +617,7 @@ public final class ShellPair {
                 if (samePart(i, stop - i, b, bAt, bSize)) {
                     return true;
                 }
-                i = stop;
+                i = Math.max(i, stop);
             }
             return false;
         }
@@ -1602,8 +1602,8 @@ public final class ShellPair {
 
         /** What stands in KEXINIT behind the bytes of chance. */
         void listsBy(int ciphers, int macs) {
-            String cipherNames = inOrder(ciphers, "aes128-ctr", "aes256-ctr");
-            String macNames = inOrder(macs, "hmac-sha2-256", "hmac-sha2-256-etm@openssh.com");
+            String cipherNames = cipherNames(ciphers);
+            String macNames = macNames(macs);
             lists.clear();
             lists.putName(KEYS);
             lists.putName(ED25519);
@@ -1619,15 +1619,30 @@ public final class ShellPair {
             lists.putInt(0);
         }
 
-        private static String inOrder(int digits, String one, String two) {
-            if (digits < 10) {
-                return digits == 1 ? one : two;
+        private static String cipherNames(int digits) {
+            switch (digits) {
+                case 1:
+                    return "aes128-ctr";
+                case 2:
+                    return "aes256-ctr";
+                case 12:
+                    return "aes128-ctr,aes256-ctr";
+                default:
+                    return "aes256-ctr,aes128-ctr";
             }
-            StringBuilder both = new StringBuilder();
-            both.append(digits == 12 ? one : two);
-            both.append(',');
-            both.append(digits == 12 ? two : one);
-            return both.toString();
+        }
+
+        private static String macNames(int digits) {
+            switch (digits) {
+                case 1:
+                    return "hmac-sha2-256";
+                case 2:
+                    return "hmac-sha2-256-etm@openssh.com";
+                case 12:
+                    return "hmac-sha2-256,hmac-sha2-256-etm@openssh.com";
+                default:
+                    return "hmac-sha2-256-etm@openssh.com,hmac-sha2-256";
+            }
         }
 
         void makesInit(Chance chance) {
@@ -1687,7 +1702,7 @@ public final class ShellPair {
                 if (second.listHas(in, second.textSize, first, i, stop - i)) {
                     return i;
                 }
-                i = stop;
+                i = Math.max(i, stop);
             }
             return NONE;
         }
@@ -1952,8 +1967,18 @@ public final class ShellPair {
 
         abstract int takesRequest(Channel c);
 
+        /** Does what may be done now for a channel that is there and that this END has not closed. */
+        abstract void worksOn(Channel c);
+
         /** Does what may be done now for the channels. */
-        abstract void works();
+        void works() {
+            for (int i = 0; i < CHANNELS && state == OPEN; i++) {
+                Channel c = channels[i];
+                if (c.state == Channel.THERE && !c.is(Channel.CLOSE_SENT)) {
+                    worksOn(c);
+                }
+            }
+        }
 
         void begins() {
             state = OPEN;
@@ -2818,16 +2843,7 @@ public final class ShellPair {
             return 0;
         }
 
-        void works() {
-            for (int i = 0; i < CHANNELS && state == OPEN; i++) {
-                Channel c = channels[i];
-                if (c.state == Channel.THERE && !c.is(Channel.CLOSE_SENT)) {
-                    worksOn(c);
-                }
-            }
-        }
-
-        private void worksOn(Channel c) {
+        void worksOn(Channel c) {
             if (c.is(Channel.CLOSING)) {
                 putsNumber(97, c);
                 if (sends(message)) {
@@ -3197,16 +3213,7 @@ public final class ShellPair {
             return 0;
         }
 
-        void works() {
-            for (int i = 0; i < CHANNELS && state == OPEN; i++) {
-                Channel c = channels[i];
-                if (c.state == Channel.THERE && !c.is(Channel.CLOSE_SENT)) {
-                    worksOn(c);
-                }
-            }
-        }
-
-        private void worksOn(Channel c) {
+        void worksOn(Channel c) {
             if (c.stage == ASKED) {
                 c.stage = stageOf(c.command);
             }
