@@ -3331,13 +3331,15 @@ public final class ShellPair {
         }
 
         private static void echoes(Channel c) {
-            int words = wordsOf(c.command);
-            for (int i = 1; i < words; i++) {
-                if (i > 1) {
-                    c.out.put(' ');
+            Bytes command = c.command;
+            int first = wordAt(command, 1);
+            for (int i = first; i < command.size; i++) {
+                if (command.at(i) != ' ') {
+                    if (i > first && command.at(i - 1) == ' ') {
+                        c.out.put(' ');
+                    }
+                    c.out.put(command.at(i));
                 }
-                int at = wordAt(c.command, i);
-                c.out.putPart(c.command, at, wordSize(c.command, at));
             }
             c.out.put('\n');
         }
